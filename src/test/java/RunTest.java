@@ -29,6 +29,9 @@ public final class RunTest {
         logged();
         induced();
         counts();
+        beginAgain();
+        fullHouse();
+        longText();
         Check.finish();
     }
 
@@ -145,9 +148,9 @@ public final class RunTest {
 
     private static void expressions() {
         PearlHouse h = Check.ran("var a=-7;task t 1 main{log 2+3*4;log (2+3)*4;log 10-3-2;log a/2;log a%2;log 7/-2;log 7%-2;log --3;log -a;log 1<2;"
-            + "log 2<1;log 2>1;log 1>2;log 1=1;log 1=2;log 1+1=2;log 2*3%4;log 20/3*2;log state t;log state u;log time;log 1-(2-3);log -2*3;}"
+            + "log 2<1;log 2>1;log 1>2;log 1=1;log 1=2;log 1+1=2;log 2*3%4;log 20/3*2;log 7/1;log 7%1;log state t;log state u;log time;log 1-(2-3);log -2*3;}"
             + "task u 1{}", 50);
-        Check.logs("expressions", h, 14, 20, 5, -3, -1, -3, 1, 3, 7, 1, 0, 1, 0, 1, 0, 1, 2, 12, 1, 0, 20, 2, -6);
+        Check.logs("expressions", h, 14, 20, 5, -3, -1, -3, 1, 3, 7, 1, 0, 1, 0, 1, 0, 1, 2, 12, 7, 0, 1, 0, 22, 2, -6);
     }
 
     private static void outOfSpan() {
@@ -178,6 +181,9 @@ public final class RunTest {
         Check.due("item(0, NONE)", 2, h.item(0, -1));
         Check.due("item(2, NONE)", 0, h.item(2, -1));
         Check.due("item(3, NONE)", -1, h.item(3, -1));
+        h = Check.ran("row a;row b;task t 1 main{make a 3;a[2]=9;make b 1;b[0]=4;make a 2;make b 0;}", 50);
+        Check.due("item(0, 2), behind the last", 0, h.item(0, 2));
+        Check.due("item(1, 0), behind the last", 0, h.item(1, 0));
         h = Check.ran("row a;row b;task t 1 main{make a 2;a[0]=7;make a 2;log a[0];same b a;b[1]=3;lose a;make a 2;log a[1];log b[1];same a a;log size a;same b a;"
             + "lose a;same b a;}", 50);
         Check.logs("new arrays are 0", h, 0, 0, 3, 2);
@@ -276,6 +282,8 @@ public final class RunTest {
             + "b=do f(n-1);return b*n;}proc w(x){while 1{if x>2{return x;}x=x+1;}}"
             + "task t 1 main{a=do p(b,5);log a;a=do q();log a;a=9;a=do e();log a;do p(1,1);a=do f(5);log a;a=do w(0);log a;}", 100);
         Check.logs("procs", h, 25, 50, 0, 0, 120, 3);
+        h = Check.ran("var a=3;proc q(){return 5;}proc p(){do q();}proc r(){a=do q();}task t 1 main{a=do p();log a;a=do r();log a;}", 20);
+        Check.logs("a number goes one proc far", h, 0, 0);
         h = Check.begun("proc p(){log 1;}proc q(){do p();}task t 1 main{do q();}");
         h.run(1);
         Check.due("task(0, 8)", 1, h.task(0, 8));
@@ -490,5 +498,95 @@ public final class RunTest {
         for (int what = 0; what <= 9; what++) {
             Check.due("count(" + what + ")", due[what], h.count(what));
         }
+    }
+
+    private static void beginAgain() {
+        PearlHouse h = Check.begun("sema s 0;bolt b;irpt i;proc p(){on 11{ask s;}induce 11;}task t 1 main{pull i;start t;start t;start t;start t;enter b;do p();}"
+            + "task u 2 main{hold u;log 1;}task v 3 main{ask s;}task w 4{log 1;}");
+        h.run(20);
+        Check.due("task(0, 3)", 3, h.task(0, 3));
+        Check.due("task(0, 4)", 1, h.task(0, 4));
+        Check.due("task(0, 8)", 1, h.task(0, 8));
+        Check.due("task(0, 7)", 11, h.task(0, 7));
+        Check.due("bolt(0, 2)", 1, h.bolt(0, 2));
+        Check.due("irpt(0, 2)", 1, h.irpt(0, 2));
+        Check.due("begin()", 3, h.begin());
+        int[] due = {1, 1, 2, 0, 0, 1, 0, 0, 0};
+        for (int what = 0; what <= 8; what++) {
+            Check.due("task(0, " + what + ")", due[what], h.task(0, what));
+        }
+        Check.due("task(1, 0)", 1, h.task(1, 0));
+        Check.due("task(2, 0)", 1, h.task(2, 0));
+        Check.due("task(3, 0)", 0, h.task(3, 0));
+        Check.due("bolt(0, 1)", 0, h.bolt(0, 1));
+        Check.due("bolt(0, 2)", 0, h.bolt(0, 2));
+        Check.due("irpt(0, 2)", 0, h.irpt(0, 2));
+        Check.due("waits(2, 0, 0)", PearlHouse.NONE, h.waits(2, 0, 0));
+        for (int what = 0; what <= 9; what++) {
+            Check.due("count(" + what + ")", what == 7 ? 3 : 0, h.count(what));
+        }
+        h.run(20);
+        Check.due("count(9)", 0, h.count(9));
+        Check.feed(h, "task a 1{log 1;}task b 1 main{log 2;}task c 1{log 3;}");
+        h.module();
+        Check.due("begin() of another module", 1, h.begin());
+        Check.due("task(0, 0)", 0, h.task(0, 0));
+        Check.due("task(0, 3)", 0, h.task(0, 3));
+    }
+
+    /** As many of each sort as there may be. */
+    private static void fullHouse() {
+        StringBuilder text = new StringBuilder();
+        for (int i = 0; i < 8; i++) {
+            text.append("var v").append(i).append('=').append(10 + i).append(';');
+            text.append("task t").append(i).append(" 1 main{v").append(i).append("=v").append(i).append("+1;start t").append(7 - i).append(";enter b3;}");
+        }
+        for (int i = 0; i < 4; i++) {
+            text.append("row r").append(i).append(";sema s").append(i).append(' ').append(i).append(";bolt b").append(i).append(";irpt i").append(i).append(';');
+            text.append("out o").append(i).append(';');
+        }
+        for (int i = 0; i < 6; i++) {
+            text.append("proc p").append(i).append("(x,y,z){return x*100+y*10+z;}");
+        }
+        PearlHouse h = Check.begun(text.toString());
+        h.run(24);
+        for (int i = 0; i < 8; i++) {
+            Check.due("value(" + i + ")", 11 + i, h.value(i));
+            Check.due("bolt(3, " + (2 + i) + ")", 1, h.bolt(3, 2 + i));
+        }
+        Check.due("bolt(3, 1)", 8, h.bolt(3, 1));
+        Check.due("bolt(3, 10)", PearlHouse.BAD, h.bolt(3, 10));
+        h = Check.ran("row a;row b;row c;row d;sema e 0;sema f 0;sema g 0;sema h 8;irpt i;irpt j;irpt k;irpt l;out m;out n;out o;out p;bolt q;bolt r;bolt s;bolt t;var v;"
+            + "proc z(x,y,w){return x*100+y*10+w;}proc y1(){}proc y2(){}proc y3(){}proc y4(){}proc y5(x){return -x;}"
+            + "task u 1 main{on 8{log 8;}make a 1;make b 1;make c 1;make d 1;a[0]=1;b[0]=2;c[0]=3;d[0]=4;make a 1;log a[0]+b[0]+c[0]+d[0];make d 2;d[1]=5;"
+            + "disable l;pull l;put p 6;reserve t;ask h;v=do y5(7);log v;v=do z(1,2,3);log v;give h;give h;give h;}", 99);
+        Check.logs("the last of each sort", h, 9, -7, 123, 8);
+        Check.due("item(3, 1)", 5, h.item(3, 1));
+        Check.due("item(0, 0)", 0, h.item(0, 0));
+        Check.due("item(1, 0)", 2, h.item(1, 0));
+        Check.due("item(2, 0)", 3, h.item(2, 0));
+        Check.due("sema(3)", 9, h.sema(3));
+        Check.due("sent(3, 0)", 6, h.sent(3, 0));
+        Check.due("bolt(3, 0)", 0, h.bolt(3, 0));
+        Check.due("irpt(3, 1)", 1, h.irpt(3, 1));
+        h.begin();
+        Check.due("irpt(3, 0)", 1, h.irpt(3, 0));
+        Check.due("irpt(3, 1)", 0, h.irpt(3, 1));
+        h = Check.begun("var v;in a;in b;in c;in d;task t 1 main{take d v;log v;}");
+        Check.due("send(3, 5)", 1, h.send(3, 5));
+        h.run(9);
+        Check.logs("the last in", h, 5);
+    }
+
+    /** As many nodes as there may be, and as deep. */
+    private static void longText() {
+        PearlHouse h = Check.begun("task t 1 main{" + Check.times(199, "log 1;") + "log 1" + Check.times(100, "+1") + ";}");
+        h.run(500);
+        Check.due("logged(198)", 1, h.logged(198));
+        Check.due("logged(199)", 101, h.logged(199));
+        String text = "log 1<2+3*(1<2+3*(1<2+3*(1<2+3*(1<2+3*(1<2+3*(1<2+3*(1<2+3*(1<2+3*(1<2+3*(1<2+3*(4)))))))))));";
+        Check.logs("deep", Check.ran("task t 1 main{" + text + "}", 1), 1);
+        Check.logs("deep", Check.ran("task t 1 main{log 1+(1+(1+(1+(1+(1+(1+(1+(1+(1+(1+(1)))))))))));}", 1), 12);
+        Check.logs("deep", Check.ran("task t 1 main{log " + Check.times(11, "-") + "5;}", 1), -5);
     }
 }

@@ -80,6 +80,9 @@ public final class TaskTest {
             + "prior d 9;}");
         h.run(9);
         Check.logs("by priority, then by tasks", h, 2, 1, 3);
+        h = Check.begun("irpt i;task a 9{log 1;}task b 1 main{when i start a;pull i;}");
+        h.run(9);
+        Check.logs("the last priority, too", h, 1);
         h = Check.begun("irpt i;task a 4 main{prior a 2;when i start a;when i go a;when i go b;hold a;log 1;}task b 3 main{hold b;log 2;}");
         h.run(9);
         Check.due("run(1)", 0, h.run(1));
@@ -263,6 +266,9 @@ public final class TaskTest {
         h = Check.begun("task a 1 main{all 300000000*2 start b;}task b 1{log time;}");
         Check.due("run(9)", 2, h.run(9));
         Check.logs("none behind 1000000000", h, 600000000);
+        h = Check.begun("task a 1 main{all 500000000 start b;}task b 1{log time;}");
+        Check.due("run(9)", 2, h.run(9));
+        Check.logs("1000000000 itself", h, 500000000, 1000000000);
     }
 
     private static void scheduleOrder() {
@@ -317,6 +323,12 @@ public final class TaskTest {
         h.run(2);
         Check.due("schedule(0, 1, 0), its block is over", PearlHouse.NONE, h.schedule(0, 1, 0));
         Check.due("schedule(0, 0, 0)", 51, h.schedule(0, 0, 0));
+        h = Check.begun("task x 1{log 1;}task e 1{}task a 1 main{after 50 go e;after 60 start e;after 70 go a;after 80 go x;start e;log 1;}");
+        h.run(5);
+        Check.due("schedule(1, 1, 0), it ENDS as it begins", PearlHouse.NONE, h.schedule(1, 1, 0));
+        Check.due("schedule(1, 0, 0)", 61, h.schedule(1, 0, 0));
+        Check.due("schedule(2, 1, 0)", 72, h.schedule(2, 1, 0));
+        Check.due("schedule(0, 1, 0)", 83, h.schedule(0, 1, 0));
         h = Check.begun("task a 1 main{after 50 go a;induce 11;}");
         h.run(2);
         Check.due("schedule(0, 1, 0), ended by a signal", PearlHouse.NONE, h.schedule(0, 1, 0));
@@ -371,6 +383,11 @@ public final class TaskTest {
         h = Check.begun("sema s 0;task a 3 main{ask s;log 1;}task b 3 main{ask s;log 2;}task d 9 main{give s,s;log 4;}");
         h.run(20);
         Check.logs("as they began to wait", h, 1, 2, 4);
+        h = Check.read("sema s 0;task a 2 main{ask s;log 1;}task b 2 main{log 2;log 3;log 4;}task d 3 main{give s;}");
+        h.processors(2);
+        h.begin();
+        h.run(20);
+        Check.logs("one that is served becomes READY behind", h, 2, 3, 4, 1);
     }
 
     private static void bolts() {
@@ -415,6 +432,9 @@ public final class TaskTest {
         Check.due("task(2, 0), a better priority", 1, h.task(2, 0));
         Check.due("bolt(0, 1)", 2, h.bolt(0, 1));
         Check.due("bolt(0, 4)", 1, h.bolt(0, 4));
+        h = Check.begun("bolt b;task r 2 main{reserve b;log 2;}task a 1 main{enter b;hold a;log 1;}task e 3 main{enter b;log 3;}");
+        h.run(5);
+        Check.due("task(2, 0), the first task waits to reserve", 3, h.task(2, 0));
         h = Check.begun("bolt b;task a 1 main{reserve b;hold a;log 1;}task e 1 main{enter b;log 2;}");
         h.run(4);
         Check.due("task(1, 0), reserved", 3, h.task(1, 0));
@@ -531,6 +551,13 @@ public final class TaskTest {
         Check.due("ring(2), e waits but is in none", PearlHouse.NONE, h.ring(2));
         Check.due("ring(-1)", PearlHouse.NONE, h.ring(-1));
         Check.due("task(3, 0)", 3, h.task(3, 0));
+        h = Check.ran("bolt b;bolt c;bolt d;task a 2 main{reserve b;reserve c;}task e 1 main{reserve c;hold e;reserve d;}task f 3 main{reserve d;go e;reserve b;}", 20);
+        for (int k = 0; k < 3; k++) {
+            Check.due("ring(" + k + "), a ring of three", k, h.ring(k));
+        }
+        Check.due("ring(3)", PearlHouse.NONE, h.ring(3));
+        h = Check.ran("bolt b;task a 1 main{reserve b;reserve b;}", 1);
+        Check.due("ring(0), it waits not yet", PearlHouse.NONE, h.ring(0));
         h = Check.ran("bolt b;task a 1 main{enter b;reserve b;}", 5);
         Check.due("ring(0), for itself", 0, h.ring(0));
         h = Check.ran("bolt b;task a 1 main{reserve b;enter b;}", 5);

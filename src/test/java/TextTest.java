@@ -18,6 +18,8 @@ public final class TextTest {
         sortsWanted();
         misfits();
         firstAndLeast();
+        readAgain();
+        manyBlocks();
         Check.finish();
     }
 
@@ -156,6 +158,9 @@ public final class TextTest {
         Check.fits("");
         Check.fits("var a;row b;sema c 3;bolt d;irpt e;in f;out g;proc h(){}proc i(x){}proc j(x,y,z){}task k 1{}task l 9 main{}");
         Check.fault(2, "@;");
+        Check.fault(2, "@5");
+        Check.fault(2, "row r; @5");
+        Check.fault(2, "row r; @r");
         Check.fault(2, "@log 1;");
         Check.fault(2, "var @= 1;");
         Check.fault(2, "var a = @;");
@@ -205,6 +210,7 @@ public final class TextTest {
             String whole = head + s + "}";
             Check.fault(2, whole);
         }
+        Check.fits(head + "r [1]=2;r\n[ 1 ] =r  [2];log -r\n\n[0];a =1;}");
         Check.fits("proc p(){on any{return 1;}if 1{return 2;}while 1{return time;}}");
     }
 
@@ -239,6 +245,9 @@ public final class TextTest {
         Check.fits("proc p(a,b,c){}task t 1{do p(1,2,3);}");
         Check.fault(3, "proc p(a,b,c){}task t 1{do p(1,2,3,@4);}");
         Check.fault(3, "proc p(a,b,c){}task t 1{do p(1,2,3,@-4);}");
+        for (String e : new String[] {"a", "(1)", "size r", "time", "state t"}) {
+            Check.fault(3, "var a;row r;proc p(a,b,c){}task t 1{do p(1,2,3,@" + e + ");}");
+        }
         Check.fault(2, "proc p(a,b,c){}task t 1{do p(1,2,3,@);}");
         String many = "task t 1{" + Check.times(200, "end;");
         PearlHouse h = Check.read(many + "}");
@@ -256,6 +265,12 @@ public final class TextTest {
         PearlHouse h = Check.read(full + ";}");
         Check.due("declared(10)", 400, h.declared(10));
         Check.fault(3, full + "@+1;}");
+        String nearly = "var a;row r;task t 1{" + Check.times(197, "log 1;") + "log 1" + Check.times(101, "+1") + ";";
+        Check.due("declared(10)", 400, Check.read(nearly + "}").declared(10));
+        for (String e : new String[] {"a", "r[1]", "-1", "2", "size r", "time", "state t"}) {
+            Check.fault(3, nearly + "log @" + e + ";}");
+        }
+        Check.fault(2, nearly + "log @;}");
         Check.fits("row r;task t 1{" + Check.times(198, "log 1;") + "log (1" + Check.times(100, "+1") + ");end;}");
         Check.fault(3, "row r;task t 1{" + Check.times(198, "log 1;") + "log 1" + Check.times(100, "+1") + ";log 1@+1;}");
         Check.fault(3, "row r;task t 1{" + Check.times(198, "log 1;") + "log 1" + Check.times(100, "+1") + ";log -@1;}");
@@ -280,6 +295,8 @@ public final class TextTest {
         Check.fits("row r;task t 1" + Check.times(10, "{if 1") + "{r[0]=-1;" + Check.times(11, "}"));
         Check.fits("proc p(a,b){}task t 1" + Check.times(11, "{if 1") + "{do p(1,2-1);" + Check.times(12, "}"));
         Check.fault(3, "proc p(a,b){}task t 1" + Check.times(11, "{if 1") + "{do p(1,@-1);" + Check.times(12, "}"));
+        Check.fits("row r;task t 1{log -1" + Check.times(13, "*-1") + ";log r[0]" + Check.times(13, "+r[0]") + ";r[0]=1;r[0]=1;}");
+        Check.fits("row r;task t 1{" + Check.times(13, "r[1]=(1);") + Check.times(13, "if 1{}") + "}");
         Check.fits("task t 1{log (1)+(2)+(3)+(4)+(5)+(6)+(7)+(8)+(9)+(10)+(11)+(12)+(13)+-1;}");
     }
 
@@ -343,5 +360,67 @@ public final class TextTest {
         Check.fault(2, "var a;var b;var c;var d;var e;var f;var g;var h;var @1;");
         Check.fault(5, "sema s @10 &");
         Check.fault(1, "task t 1{} @&");
+    }
+
+    /** What a text left behind, be it at a fault or not, is no part of the next one. */
+    private static void readAgain() {
+        PearlHouse h = new PearlHouse();
+        String[] texts = {"sema s 55", "sema s 5", "proc p(){}task t 1{do p(1);}", "task t 1{}", "task t 1" + Check.times(11, "{if 1") + "{&",
+            "task t 1" + Check.times(11, "{if 1") + "{" + Check.times(12, "}"), "proc p(x){&", "task t 1{return 1;}", "proc p(x){&", "task t 1{log x;}",
+            "row r[", "task t 1{log r", "var a;var b;", "var a;", "proc p(){}", "task p 1{}"};
+        int[] due = {-15, -12, -17, 1, -11, 1, -11, -12, -11, -16, -12, -12, 0, 0, 0, 1};
+        int[] places = {7, 8, 22, -1, 64, -1, 10, 9, 10, 13, 5, 14, -1, -1, -1, -1};
+        for (int i = 0; i < texts.length; i++) {
+            h.feed(0, 0);
+            Check.feed(h, texts[i]);
+            Check.due("module() of " + texts[i], due[i], h.module());
+            Check.due("place() of " + texts[i], places[i], h.place());
+        }
+        h = new PearlHouse();
+        String[] modules = {"bolt b;task t 1{reserve b;}", "bolt b;task t 1{reserve b;}", "task z 1{}task t 1 main{end;}"};
+        for (String text : modules) {
+            Check.feed(h, text);
+            h.module();
+        }
+        h.begin();
+        h.run(1);
+        Check.due("end; ends its own task", 0, h.count(4) + h.task(1, 0));
+    }
+
+    /** As many blocks as a tape has room for. */
+    private static void manyBlocks() {
+        StringBuilder text = new StringBuilder("task t 1 main{");
+        int blocks = 0;
+        for (int i = 1; i <= 19; i++) {
+            text.append("on ").append(i).append("{");
+            for (int j = 1; j <= 19 && text.length() < 3850; j++) {
+                text.append("on ").append(j).append(i == 19 && j == 19 ? "{log 5;}" : j < 10 ? "{on 1{}}" : "{}");
+                blocks++;
+            }
+            text.append("induce ").append(i).append(";}");
+        }
+        text.append("induce 18;}");
+        PearlHouse h = Check.read(text.toString());
+        Check.due("begin()", 1, h.begin());
+        h.run(2);
+        Check.due("blocks", 1, blocks > 300 ? 1 : 0);
+        Check.due("count(5)", 2, h.count(5));
+        Check.due("task(0, 0)", 0, h.task(0, 0));
+        String small = "on 1{}on 2{}on 3{}on 4{}on 5{}on 6{}on 7{}on 8{}on 9{}";
+        text = new StringBuilder("task t 1 main{");
+        for (int i = 1; i <= 9; i++) {
+            text.append("on ").append(i).append('{');
+            for (int j = 1; j <= 6; j++) {
+                text.append("on ").append(j).append('{').append(small).append('}');
+            }
+            text.append("induce 9;}");
+        }
+        text.append("log 4;induce 9;}");
+        h = Check.read(text.toString());
+        h.begin();
+        h.run(9);
+        Check.logs("some 600 blocks", h, 4);
+        Check.due("count(4)", 2, h.count(4));
+        Check.due("count(5)", 1, h.count(5));
     }
 }
