@@ -501,7 +501,7 @@ public final class RunTest {
     }
 
     private static void beginAgain() {
-        PearlHouse h = Check.begun("sema s 0;bolt b;irpt i;proc p(){on 11{ask s;}induce 11;}task t 1 main{pull i;start t;start t;start t;start t;enter b;do p();}"
+        PearlHouse h = Check.begun("sema s 0;bolt b;irpt i;proc q(){}proc p(){on 11{ask s;}induce 11;}task t 1 main{do q();pull i;start t;start t;start t;start t;enter b;do p();}"
             + "task u 2 main{hold u;log 1;}task v 3 main{ask s;}task w 4{log 1;}");
         h.run(20);
         Check.due("task(0, 3)", 3, h.task(0, 3));
@@ -526,7 +526,7 @@ public final class RunTest {
             Check.due("count(" + what + ")", what == 7 ? 3 : 0, h.count(what));
         }
         h.run(20);
-        Check.due("count(9)", 0, h.count(9));
+        Check.due("count(9)", 1, h.count(9));
         Check.feed(h, "task a 1{log 1;}task b 1 main{log 2;}task c 1{log 3;}");
         h.module();
         Check.due("begin() of another module", 1, h.begin());
@@ -558,9 +558,9 @@ public final class RunTest {
         Check.due("bolt(3, 10)", PearlHouse.BAD, h.bolt(3, 10));
         h = Check.ran("row a;row b;row c;row d;sema e 0;sema f 0;sema g 0;sema h 8;irpt i;irpt j;irpt k;irpt l;out m;out n;out o;out p;bolt q;bolt r;bolt s;bolt t;var v;"
             + "proc z(x,y,w){return x*100+y*10+w;}proc y1(){}proc y2(){}proc y3(){}proc y4(){}proc y5(x){return -x;}"
-            + "task u 1 main{on 8{log 8;}make a 1;make b 1;make c 1;make d 1;a[0]=1;b[0]=2;c[0]=3;d[0]=4;make a 1;log a[0]+b[0]+c[0]+d[0];make d 2;d[1]=5;"
-            + "disable l;pull l;put p 6;reserve t;ask h;v=do y5(7);log v;v=do z(1,2,3);log v;give h;give h;give h;}", 99);
-        Check.logs("the last of each sort", h, 9, -7, 123, 8);
+            + "task u 1 main{on 8{log 8;}make a 1;make b 1;make c 1;make d 1;a[0]=1;b[0]=2;c[0]=3;d[0]=4;log a[0]*1000+b[0]*100+c[0]*10+d[0];make a 1;log a[0]+b[0]+c[0]+d[0];make d 2;d[1]=5;"
+            + "disable l;pull l;put p 6;reserve t;ask h;if 1{on 8{}give h,h,h;log 99;}ask h,h,h,h;log 7;give h,h,h,h;v=do y5(7);log v;v=do z(1,2,3);log v;give h;give h;give h;}", 99);
+        Check.logs("the last of each sort", h, 1234, 9, 7, -7, 123, 8);
         Check.due("item(3, 1)", 5, h.item(3, 1));
         Check.due("item(0, 0)", 0, h.item(0, 0));
         Check.due("item(1, 0)", 2, h.item(1, 0));
@@ -572,6 +572,8 @@ public final class RunTest {
         h.begin();
         Check.due("irpt(3, 0)", 1, h.irpt(3, 0));
         Check.due("irpt(3, 1)", 0, h.irpt(3, 1));
+        h = Check.begun("sema e 0;sema f 0;sema g 0;sema h 0;task t 1 main{ask h;log 1;}");
+        Check.due("run(9), the last sema has none", 0, h.run(9));
         h = Check.begun("var v;in a;in b;in c;in d;task t 1 main{take d v;log v;}");
         Check.due("send(3, 5)", 1, h.send(3, 5));
         h.run(9);
