@@ -1495,6 +1495,9 @@ public final class PearlHouse {
             int chosen = 0;
             for (int i = 0; i < taskCount; i++) {
                 Task t = tasks[i];
+                if (t.state != READY) {
+                    continue;
+                }
                 int ahead = 0;
                 for (int j = 0; j < taskCount; j++) {
                     Task o = tasks[j];
@@ -1503,7 +1506,7 @@ public final class PearlHouse {
                         ahead++;
                     }
                 }
-                if (t.state == READY && ahead < processorCount) {
+                if (ahead < processorCount) {
                     order[ahead] = i;
                     chosen++;
                 }
