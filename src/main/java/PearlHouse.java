@@ -77,6 +77,7 @@ public final class PearlHouse {
 
     public int module() {
         int fault = reader.read(spare);
+        tape.length = 0;
         if (fault != 0) {
             faultPlace = reader.faultAt;
             return -10 - fault;
@@ -86,7 +87,6 @@ public final class PearlHouse {
         spare = old;
         hasModule = true;
         faultPlace = NONE;
-        tape.length = 0;
         machine.running = false;
         return current.counts[TASK];
     }

@@ -64,6 +64,10 @@ public final class RoughTest {
         if (tasks < 0) {
             Check.due("module() of " + text + ": a fault 1 to 7", 1, tasks <= -11 && tasks >= -17 ? 1 : 0);
             Check.due("place() of " + text + " in the text", 1, place >= 0 && place <= text.length() ? 1 : 0);
+            Check.due("feed() behind the fault", 1, h.feed('&', 1));
+            Check.feed(h, text);
+            Check.due("module() of & and " + text, -11, h.module());
+            Check.feed(h, text);
             Check.due("module() again", tasks, h.module());
         } else {
             Check.due("place() of " + text, -1, place);

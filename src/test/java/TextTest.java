@@ -18,6 +18,7 @@ public final class TextTest {
         sortsWanted();
         misfits();
         firstAndLeast();
+        behindFaults();
         readAgain();
         manyBlocks();
         Check.finish();
@@ -69,7 +70,8 @@ public final class TextTest {
         Check.due("the module stays", 2, h.declared(8));
         Check.due("the run stays", 1, h.run(1));
         Check.due("its log", 1, h.logged(0));
-        Check.due("the tape stays", 11, h.feed('}', 1));
+        Check.due("the tape is empty behind a fault", 1, h.feed('t', 1));
+        Check.feed(h, "ask c 1 {}");
         Check.due("module()", 1, h.module());
         Check.due("no run is there", PearlHouse.STATE, h.run(1));
         Check.due("no log", 0, h.logged(0));
@@ -89,8 +91,10 @@ public final class TextTest {
         Check.due("module()", -12, h.module());
         Check.due("place()", 4, h.place());
         Check.due("place() again", 4, h.place());
-        h.feed(0, 0);
-        Check.due("place() when the tape is empty", 4, h.place());
+        Check.feed(h, "row r");
+        Check.due("place() when the next text is fed", 4, h.place());
+        Check.due("module(), a fault at the end", -12, h.module());
+        Check.due("place(), the text's length", 5, h.place());
         Check.feed(h, "row r;");
         Check.due("module()", 0, h.module());
         Check.due("place()", PearlHouse.NONE, h.place());
@@ -129,6 +133,30 @@ public final class TextTest {
         Check.due("find(0, 0)", PearlHouse.NONE, h.find(0, 0));
         Check.due("find(0, -1)", PearlHouse.NONE, h.find(0, -1));
         Check.due("find(0, a and a blank)", PearlHouse.NONE, h.find(0, Check.name("a ")));
+    }
+
+    /** Every sort of fault leaves an empty tape, and the module and the run of before. */
+    private static void behindFaults() {
+        String[] texts = {"&", "row", "task t 1{" + Check.times(201, "end;"), "row r;row r;", "sema s 10;", "task t 1{log x;}",
+            "proc p(){}task t 1{do p(1);}"};
+        for (int i = 0; i < texts.length; i++) {
+            PearlHouse h = Check.ran("var a = 7; task t 1 main { a = 8; a = 9; }", 1);
+            for (int at = 0; at < texts[i].length(); at += 8) {
+                String part = texts[i].substring(at, Math.min(at + 8, texts[i].length()));
+                h.feed(Check.name(part), part.length());
+            }
+            Check.due("module() of " + texts[i], -11 - i, h.module());
+            Check.due("the var of the run", 8, h.value(0));
+            Check.due("the run goes on", 1, h.run(1));
+            Check.due("its var", 9, h.value(0));
+            Check.due("declared(9)", 2, h.declared(9));
+            Check.due("feed behind the fault " + (i + 1), 1, h.feed(' ', 1));
+        }
+        PearlHouse h = new PearlHouse();
+        h.feed(0, 1);
+        Check.due("module()", -11, h.module());
+        Check.due("module() of the empty tape", 0, h.module());
+        Check.due("begin()", 0, h.begin());
     }
 
     private static void tokens() {
@@ -371,7 +399,6 @@ public final class TextTest {
         int[] due = {-15, -12, -17, 1, -11, 1, -11, -12, -11, -16, -12, -12, 0, 0, 0, 1};
         int[] places = {7, 8, 22, -1, 64, -1, 10, 9, 10, 13, 5, 14, -1, -1, -1, -1};
         for (int i = 0; i < texts.length; i++) {
-            h.feed(0, 0);
             Check.feed(h, texts[i]);
             Check.due("module() of " + texts[i], due[i], h.module());
             Check.due("place() of " + texts[i], places[i], h.place());
