@@ -477,6 +477,20 @@ public final class PearlHouse {
         final Statements statements = new Statements();
         final Blocks blocks = new Blocks();
 
+        /** The next text must find nothing told by the one before, which may have stopped at a fault. */
+        void forget() {
+            Arrays.fill(counts, 0);
+            Arrays.fill(varStart, 0);
+            Arrays.fill(semaStart, 0);
+            Arrays.fill(priority, 0);
+            for (int t = 0; t < MOST_TASKS; t++) {
+                main[t] = false;
+            }
+            Arrays.fill(taskBody, NONE);
+            Arrays.fill(procBody, NONE);
+            Arrays.fill(parameters, 0);
+        }
+
         boolean has(int sort, int number) {
             return number >= 0 && number < counts[sort];
         }
@@ -530,7 +544,7 @@ public final class PearlHouse {
             blocks = into.blocks;
             fault = 0;
             misfit = NONE;
-            Arrays.fill(into.counts, 0);
+            into.forget();
             for (int pass = 1; pass <= 2 && fault == 0; pass++) {
                 known = pass == 2;
                 rewind();

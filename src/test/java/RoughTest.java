@@ -1,6 +1,7 @@
 import java.util.Random;
 
-// Texts of tokens at random, and calls with arguments at random: no call may throw, and refusals change nothing.
+// Texts of tokens at random, and calls with arguments at random: no call may throw, refusals change nothing, and an
+// object that has read and run other texts answers like a new one.
 public final class RoughTest {
     private static final String[] PARTS = {"var", "row", "sema", "bolt", "irpt", "in", "out", "proc", "task", "main", "on", "any", "do", "return",
         "if", "else", "while", "make", "same", "lose", "ask", "give", "reserve", "free", "enter", "leave", "start", "go", "end", "hold",
@@ -14,6 +15,10 @@ public final class RoughTest {
         "prevent t2;", "induce 12;", "take n a;", "put o a;", "pull i;", "enable i;", "disable i;", "pull j;", "log a/b;", "at time+3 start t1;",
         "after 2 go t1;", "after 4 go t2;", "all 3 start t2;", "all 5 until time+40 go t2;", "when i start t0;", "when j go t1;", "when i go t2;",
         "if a>b{log 1;}else{b=b+1;}", "while b<4{b=b+1;}", "if 1{on any{log 9;}log 1/0;}", "end t1;"};
+    private static final String[] MORE = {"var c=5;", "var d=-7;", "row w;", "sema f 2;", "sema g 9;", "bolt k;", "irpt h;", "in z;", "out v;",
+        "proc c1(x){return x;}", "task t8 4 main{log 7;}", "task t9 1{}"};
+    private static final String[] TOLD = {"var @=-5;", "row @;", "sema @ 7;", "bolt @;", "irpt @;", "in @;", "out @;", "proc @(x,y){return x;}",
+        "task @ 4 main{log 7;}"};
     private static final int[] EDGES = {Integer.MIN_VALUE, -2000000000, -3, -2, -1, 0, 1, 2, 3, 4, 5, 7, 8, 9, 10, 19, 20, 21, 39, 40, 99, 100, 199, 200,
         500, 501, 1000000000, Integer.MAX_VALUE};
 
@@ -23,6 +28,9 @@ public final class RoughTest {
         RoughTest test = new RoughTest();
         for (int i = 0; i < 3000; i++) {
             test.oneObject(i % 2 == 0 ? test.anyText() : test.goodText());
+        }
+        for (int i = 0; i < 1500; i++) {
+            test.usedAndNew();
         }
         Check.finish();
     }
@@ -50,6 +58,72 @@ public final class RoughTest {
             text.append("}}");
         }
         return text.toString();
+    }
+
+    /** A text that tells some of this and that and breaks off in the last of it. */
+    private String brokenText() {
+        StringBuilder text = new StringBuilder();
+        int sort = random.nextInt(TOLD.length);
+        for (int i = random.nextInt(6); i >= 0; i--) {
+            text.append(TOLD[sort].replace('@', (char) ('a' + i)));
+            sort = random.nextInt(3) == 0 ? random.nextInt(TOLD.length) : sort;
+        }
+        return text.substring(0, text.length() - 1 - random.nextInt(4));
+    }
+
+    /** A good text, with more or less of each sort told ahead of it or behind it. */
+    private String otherText() {
+        StringBuilder text = new StringBuilder();
+        for (String more : MORE) {
+            text.append(random.nextBoolean() ? more : "");
+        }
+        return random.nextBoolean() ? text + goodText() : goodText() + text;
+    }
+
+    /** One object has read other texts, most of them with a fault, and run some; it must answer as a new one does. */
+    private void usedAndNew() {
+        PearlHouse used = new PearlHouse();
+        for (int i = random.nextInt(4); i >= 0; i--) {
+            Check.feed(used, random.nextInt(4) == 0 ? otherText() : brokenText());
+            used.module();
+            used.begin();
+            used.run(1 + random.nextInt(60));
+        }
+        String text = otherText();
+        PearlHouse fresh = new PearlHouse();
+        for (PearlHouse h : new PearlHouse[] {used, fresh}) {
+            Check.feed(h, text);
+        }
+        Check.due("module() of " + text, fresh.module(), used.module());
+        Check.due("begin() of " + text, fresh.begin(), used.begin());
+        for (int i = 0; i < 20; i++) {
+            int grains = 1 + random.nextInt(5);
+            int v = random.nextInt(9);
+            Check.due("run(" + grains + ")", fresh.run(grains), used.run(grains));
+            Check.due("send(0, " + v + ")", fresh.send(0, v), used.send(0, v));
+            Check.due("trigger(1)", fresh.trigger(1), used.trigger(1));
+            compare(text, fresh, used);
+        }
+    }
+
+    private static void compare(String text, PearlHouse fresh, PearlHouse used) {
+        StringBuilder due = new StringBuilder();
+        StringBuilder got = new StringBuilder();
+        tellAll(fresh, due);
+        tellAll(used, got);
+        Check.due("a used object tells" + got + ", a new one" + due + ", of " + text, 1, due.compareTo(got) == 0 ? 1 : 0);
+    }
+
+    private static void tellAll(PearlHouse h, StringBuilder all) {
+        for (int i = 0; i <= 10; i++) {
+            all.append(' ').append(h.declared(i)).append(' ').append(h.count(i)).append(' ').append(h.value(i)).append(' ').append(h.sema(i)).append(' ').append(h.ring(i))
+                .append(' ').append(h.logged(i)).append(' ').append(h.induced(i, 1)).append(' ').append(h.induced(i, 2));
+            for (int j = -1; j <= 10; j++) {
+                all.append(' ').append(h.task(i, j)).append(' ').append(h.item(i, j)).append(' ').append(h.bolt(i, j)).append(' ').append(h.irpt(i, j)).append(' ')
+                    .append(h.sent(i, j)).append(' ').append(h.one(i, j)).append(' ').append(h.schedule(i, 0, j)).append(' ').append(h.schedule(i, 1, j))
+                    .append(' ').append(h.waits(2, i, j)).append(' ').append(h.waits(3, i, j)).append(' ').append(h.waits(5, i, j));
+            }
+        }
     }
 
     private int edge() {

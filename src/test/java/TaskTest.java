@@ -19,6 +19,7 @@ public final class TaskTest {
         semas();
         semaLists();
         semaServing();
+        semasBehindFaults();
         bolts();
         boltEntering();
         boltServing();
@@ -388,6 +389,28 @@ public final class TaskTest {
         h.begin();
         h.run(20);
         Check.logs("one that is served becomes READY behind", h, 2, 3, 4, 1);
+    }
+
+    /** What a text with a fault told of semas is nothing to the next one: each is asked, given and served as told. */
+    private static void semasBehindFaults() {
+        String[] faults = {"sema a 1;sema b", "sema a 1;sema b;", "sema a 1;sema b 10;", "sema a;", "sema a 1;sema b 2;sema c 3;sema d", "sema a 9;sema b 9;sema c 9;sema d 9;&"};
+        for (String fault : faults) {
+            PearlHouse h = new PearlHouse();
+            Check.feed(h, fault);
+            Check.due("module() of " + fault, 1, h.module() < -10 ? 1 : 0);
+            Check.feed(h, "sema a 1;task t 1 main{ask a;ask a;log 5;}task u 2 main{give a;}");
+            Check.due("module() behind " + fault, 2, h.module());
+            h.begin();
+            Check.due("sema(0) as told, behind " + fault, 1, h.sema(0));
+            h.run(1);
+            Check.due("sema(0), asked behind " + fault, 0, h.sema(0));
+            Check.due("task(0, 0), it does not wait behind " + fault, 1, h.task(0, 0));
+            h.run(2);
+            Check.due("task(0, 0), it is served behind " + fault, 1, h.task(0, 0));
+            Check.due("sema(1) behind " + fault, PearlHouse.NONE, h.sema(1));
+            Check.due("run(9) behind " + fault, 2, h.run(9));
+            Check.logs("behind " + fault, h, 5);
+        }
     }
 
     private static void bolts() {

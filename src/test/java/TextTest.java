@@ -141,10 +141,7 @@ public final class TextTest {
             "proc p(){}task t 1{do p(1);}"};
         for (int i = 0; i < texts.length; i++) {
             PearlHouse h = Check.ran("var a = 7; task t 1 main { a = 8; a = 9; }", 1);
-            for (int at = 0; at < texts[i].length(); at += 8) {
-                String part = texts[i].substring(at, Math.min(at + 8, texts[i].length()));
-                h.feed(Check.name(part), part.length());
-            }
+            Check.feed(h, texts[i]);
             Check.due("module() of " + texts[i], -11 - i, h.module());
             Check.due("the var of the run", 8, h.value(0));
             Check.due("the run goes on", 1, h.run(1));

@@ -13,8 +13,9 @@ final class Check {
     }
 
     static void feed(PearlHouse house, String text) {
-        for (int i = 0; i < text.length(); i++) {
-            house.feed(text.charAt(i), 1);
+        for (int i = 0; i < text.length(); i += 8) {
+            String part = text.substring(i, Math.min(i + 8, text.length()));
+            house.feed(name(part), part.length());
         }
     }
 
