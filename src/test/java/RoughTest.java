@@ -82,47 +82,55 @@ public final class RoughTest {
 
     /** One object has read other texts, most of them with a fault, and run some; it must answer as a new one does. */
     private void usedAndNew() {
-        PearlHouse used = new PearlHouse();
+        House used = new House();
         for (int i = random.nextInt(4); i >= 0; i--) {
-            Check.feed(used, random.nextInt(4) == 0 ? otherText() : brokenText());
+            Check.feed(used, i == 0 && random.nextInt(3) == 0 ? otherText() : brokenText());
             used.module();
             used.begin();
             used.run(1 + random.nextInt(60));
         }
         String text = otherText();
-        PearlHouse fresh = new PearlHouse();
-        for (PearlHouse h : new PearlHouse[] {used, fresh}) {
+        House fresh = new House();
+        for (House h : new House[] {used, fresh}) {
             Check.feed(h, text);
         }
         Check.due("module() of " + text, fresh.module(), used.module());
         Check.due("begin() of " + text, fresh.begin(), used.begin());
-        for (int i = 0; i < 20; i++) {
-            int grains = 1 + random.nextInt(5);
+        for (int i = random.nextInt(8); i >= 0; i--) {
+            int grains = 1 + random.nextInt(9);
             int v = random.nextInt(9);
             Check.due("run(" + grains + ")", fresh.run(grains), used.run(grains));
             Check.due("send(0, " + v + ")", fresh.send(0, v), used.send(0, v));
             Check.due("trigger(1)", fresh.trigger(1), used.trigger(1));
-            compare(text, fresh, used);
         }
+        String due = tellAll(fresh);
+        String got = tellAll(used);
+        Check.due("a used object tells" + got + ", a new one" + due + ", of " + text, 1, due.equals(got) ? 1 : 0);
     }
 
-    private static void compare(String text, PearlHouse fresh, PearlHouse used) {
-        StringBuilder due = new StringBuilder();
-        StringBuilder got = new StringBuilder();
-        tellAll(fresh, due);
-        tellAll(used, got);
-        Check.due("a used object tells" + got + ", a new one" + due + ", of " + text, 1, due.compareTo(got) == 0 ? 1 : 0);
-    }
-
-    private static void tellAll(PearlHouse h, StringBuilder all) {
+    private static String tellAll(House h) {
+        StringBuilder all = new StringBuilder();
         for (int i = 0; i <= 10; i++) {
-            all.append(' ').append(h.declared(i)).append(' ').append(h.count(i)).append(' ').append(h.value(i)).append(' ').append(h.sema(i)).append(' ').append(h.ring(i))
-                .append(' ').append(h.logged(i)).append(' ').append(h.induced(i, 1)).append(' ').append(h.induced(i, 2));
-            for (int j = -1; j <= 10; j++) {
-                all.append(' ').append(h.task(i, j)).append(' ').append(h.item(i, j)).append(' ').append(h.bolt(i, j)).append(' ').append(h.irpt(i, j)).append(' ')
-                    .append(h.sent(i, j)).append(' ').append(h.one(i, j)).append(' ').append(h.schedule(i, 0, j)).append(' ').append(h.schedule(i, 1, j))
-                    .append(' ').append(h.waits(2, i, j)).append(' ').append(h.waits(3, i, j)).append(' ').append(h.waits(5, i, j));
+            tell(all, h.declared(i), h.count(i), h.logged(i));
+        }
+        for (int i = 0; i <= 4; i++) {
+            for (int what = 0; what <= 8; what++) {
+                tell(all, h.task(i, what));
             }
+            tell(all, h.schedule(i, 0, 0), h.schedule(i, 1, 0), h.value(i), h.sema(i), h.ring(i));
+        }
+        for (int i = 0; i <= 2; i++) {
+            for (int what = 0; what <= 2; what++) {
+                tell(all, h.bolt(i, what), h.irpt(i, what), h.induced(i, what), h.item(i, what - 1));
+            }
+            tell(all, h.waits(2, i, 0), h.waits(3, i, 0), h.waits(5, i, 0), h.sent(i, -1));
+        }
+        return all.toString();
+    }
+
+    private static void tell(StringBuilder all, int... answers) {
+        for (int answer : answers) {
+            all.append(' ').append(answer);
         }
     }
 
@@ -131,7 +139,7 @@ public final class RoughTest {
     }
 
     private void oneObject(String text) {
-        PearlHouse h = new PearlHouse();
+        House h = new House();
         Check.feed(h, text);
         int tasks = h.module();
         int place = h.place();
@@ -158,7 +166,7 @@ public final class RoughTest {
         Check.due("reactions are not above signals", 1, h.count(5) <= h.count(4) ? 1 : 0);
     }
 
-    private void anyCall(PearlHouse h) {
+    private void anyCall(House h) {
         int a = edge();
         int b = edge();
         int c = edge();

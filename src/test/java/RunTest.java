@@ -36,7 +36,7 @@ public final class RunTest {
     }
 
     private static void processors() {
-        PearlHouse h = Check.read("task a 1 main{log 1;log 4;}task b 1 main{log 2;log 5;}task c 1 main{log 3;log 6;}");
+        House h = Check.read("task a 1 main{log 1;log 4;}task b 1 main{log 2;log 5;}task c 1 main{log 3;log 6;}");
         Check.due("processors(0)", PearlHouse.BAD, h.processors(0));
         Check.due("processors(4)", PearlHouse.BAD, h.processors(4));
         Check.due("processors(3)", 1, h.processors(3));
@@ -56,7 +56,7 @@ public final class RunTest {
     }
 
     private static void begin() {
-        PearlHouse h = Check.read("var a=7;var b;row r;sema s 3;bolt l;irpt i;in n;out o;task t 1 main{a=1;b=2;make r 2;ask s;reserve l;put o 1;"
+        House h = Check.read("var a=7;var b;row r;sema s 3;bolt l;irpt i;in n;out o;task t 1 main{a=1;b=2;make r 2;ask s;reserve l;put o 1;"
             + "log 5;disable i;after 9 start u;induce 11;}task u 2{log 1;}task v 1 main{}task w 3 main{end;}");
         Check.due("begin()", 2, h.begin());
         h.send(0, 3);
@@ -86,7 +86,7 @@ public final class RunTest {
     }
 
     private static void runRefuses() {
-        PearlHouse h = new PearlHouse();
+        House h = new House();
         Check.due("run(0), BAD ahead of STATE", PearlHouse.BAD, h.run(0));
         Check.due("run(501)", PearlHouse.BAD, h.run(501));
         Check.due("run(-1)", PearlHouse.BAD, h.run(-1));
@@ -94,7 +94,7 @@ public final class RunTest {
     }
 
     private static void runAnswers() {
-        PearlHouse h = Check.begun("task a 1 main{log 1;log 2;}");
+        House h = Check.begun("task a 1 main{log 1;log 2;}");
         Check.due("run(1)", 1, h.run(1));
         Check.due("run(1), the last S", 1, h.run(1));
         Check.due("run(1)", 2, h.run(1));
@@ -112,7 +112,7 @@ public final class RunTest {
     }
 
     private static void grains() {
-        PearlHouse h = Check.begun("task a 1 main{after 10 start b;}task b 1{log time;}");
+        House h = Check.begun("task a 1 main{after 10 start b;}task b 1{log time;}");
         Check.due("run(1)", 1, h.run(1));
         Check.due("count(0)", 1, h.count(0));
         Check.due("run(1), TIME goes on", 1, h.run(1));
@@ -130,7 +130,7 @@ public final class RunTest {
     }
 
     private static void turns() {
-        PearlHouse h = Check.ran("task a 5 main{log 1;log 2;}task b 3 main{log 3;log 4;}task c 5 main{log 5;}", 9);
+        House h = Check.ran("task a 5 main{log 1;log 2;}task b 3 main{log 3;log 4;}task c 5 main{log 5;}", 9);
         Check.logs("by priority, then as they became ready", h, 3, 4, 1, 2, 5);
         h = Check.read("task a 1 main{hold b;log 1;go b;}task b 2 main{log 2;}task c 3 main{log 3;}");
         h.processors(2);
@@ -147,7 +147,7 @@ public final class RunTest {
     }
 
     private static void expressions() {
-        PearlHouse h = Check.ran("var a=-7;task t 1 main{log 2+3*4;log (2+3)*4;log 10-3-2;log a/2;log a%2;log 7/-2;log 7%-2;log --3;log -a;log 1<2;"
+        House h = Check.ran("var a=-7;task t 1 main{log 2+3*4;log (2+3)*4;log 10-3-2;log a/2;log a%2;log 7/-2;log 7%-2;log --3;log -a;log 1<2;"
             + "log 2<1;log 2>1;log 1>2;log 1=1;log 1=2;log 1+1=2;log 2*3%4;log 20/3*2;log 7/1;log 7%1;log state t;log state u;log time;log 1-(2-3);log -2*3;}"
             + "task u 1{}", 50);
         Check.logs("expressions", h, 14, 20, 5, -3, -1, -3, 1, 3, 7, 1, 0, 1, 0, 1, 0, 1, 2, 12, 7, 0, 1, 0, 22, 2, -6);
@@ -155,7 +155,7 @@ public final class RunTest {
 
     private static void outOfSpan() {
         String least = "(-2147483*1000-648)";
-        PearlHouse h = Check.ran("task t 1 main{log " + least + ";log 2147483*1000+647;log -2147483*1000-648;}", 9);
+        House h = Check.ran("task t 1 main{log " + least + ";log 2147483*1000+647;log -2147483*1000-648;}", 9);
         Check.logs("the ends of the span", h, LEAST, 2147483647, LEAST);
         String[] over = {"log 2147483*1000+648;", "log -2147483*1000-649;", "log -" + least + ";", "log " + least + "/-1;", "log 65536*32768;",
             "log 999999999*999999999;", "log (2147483*1000+648)*0;"};
@@ -174,7 +174,7 @@ public final class RunTest {
     }
 
     private static void rows() {
-        PearlHouse h = Check.ran("row a;row b;row c;row d;task t 1 main{make a 3;a[0]=5;a[2]=6;same b a;b[1]=9;make c 20;make d 0;"
+        House h = Check.ran("row a;row b;row c;row d;task t 1 main{make a 3;a[0]=5;a[2]=6;same b a;b[1]=9;make c 20;make d 0;"
             + "log size a;log a[1];log size d;c[19]=4;make a 2;log b[2];log a[0];same c d;lose d;}", 50);
         Check.logs("rows", h, 3, 9, 0, 6, 0);
         Check.due("item(1, 0)", 5, h.item(1, 0));
@@ -198,7 +198,7 @@ public final class RunTest {
     }
 
     private static void rowAnswers() {
-        PearlHouse h = Check.read("row a;row b;row c;task t 1 main{make a 2;same b a;a[1]=8;make c 2;}");
+        House h = Check.read("row a;row b;row c;task t 1 main{make a 2;same b a;a[1]=8;make c 2;}");
         Check.due("one(0, 1)", PearlHouse.STATE, h.one(0, 1));
         Check.due("item(0, 0), no run", 0, h.item(0, 0));
         Check.due("item(0, NONE), no run", 0, h.item(0, -1));
@@ -223,7 +223,7 @@ public final class RunTest {
     }
 
     private static void arraysEver() {
-        PearlHouse h = Check.begun("var a;row r;task t 1 main{while 1{make r 1;}}");
+        House h = Check.begun("var a;row r;task t 1 main{while 1{make r 1;}}");
         for (int i = 0; i < 15; i++) {
             h.run(500);
         }
@@ -241,7 +241,7 @@ public final class RunTest {
     }
 
     private static void branches() {
-        PearlHouse h = Check.ran("var a;task t 1 main{if 2{log 1;}else{log 2;}if 0{log 3;}else{log 4;}if 0{log 5;}if -1{log 6;}while a<3{a=a+1;log a;}"
+        House h = Check.ran("var a;task t 1 main{if 2{log 1;}else{log 2;}if 0{log 3;}else{log 4;}if 0{log 5;}if -1{log 6;}while a<3{a=a+1;log a;}"
             + "log 7;if 1{}else{log 8;}log 9;}", 50);
         Check.logs("if, while", h, 1, 4, 6, 1, 2, 3, 7, 9);
         Check.due("count(2)", 20, h.count(2));
@@ -258,7 +258,7 @@ public final class RunTest {
     }
 
     private static void blocksOver() {
-        PearlHouse h = Check.begun("task t 1 main{if 1{if 1{log 1;}}}");
+        House h = Check.begun("task t 1 main{if 1{if 1{log 1;}}}");
         h.run(2);
         Check.due("task(0, 0)", 1, h.task(0, 0));
         h.run(1);
@@ -278,7 +278,7 @@ public final class RunTest {
     }
 
     private static void procs() {
-        PearlHouse h = Check.ran("var a;var b=4;proc p(x,y){x=x+1;return x*y;log 99;}proc q(){log 50;}proc e(){}proc f(n){if n<2{return 1;}"
+        House h = Check.ran("var a;var b=4;proc p(x,y){x=x+1;return x*y;log 99;}proc q(){log 50;}proc e(){}proc f(n){if n<2{return 1;}"
             + "b=do f(n-1);return b*n;}proc w(x){while 1{if x>2{return x;}x=x+1;}}"
             + "task t 1 main{a=do p(b,5);log a;a=do q();log a;a=9;a=do e();log a;do p(1,1);a=do f(5);log a;a=do w(0);log a;}", 100);
         Check.logs("procs", h, 25, 50, 0, 0, 120, 3);
@@ -305,7 +305,7 @@ public final class RunTest {
     }
 
     private static void procsUnderWay() {
-        PearlHouse h = Check.ran("var a;proc p(x){on 6{log a;return a;}a=x;do p(x+1);log 77;}task t 1 main{do p(1);log 100;}", 100);
+        House h = Check.ran("var a;proc p(x){on 6{log a;return a;}a=x;do p(x+1);log 77;}task t 1 main{do p(1);log 100;}", 100);
         Check.due("induced(0, 1)", 6, h.induced(0, 1));
         Check.due("logged(0), the eighth meets it", 8, h.logged(0));
         Check.due("count(8)", 8, h.count(8));
@@ -320,7 +320,7 @@ public final class RunTest {
             "prior t 10;", "free b;", "leave b;", "give s;", "at -1 start u;", "after 0 start u;", "all 0 start u;", "all 5 until 4 start u;", "go u;"};
         int[] due = {1, 19, 10, 5, 5, 5, 7, 7, 7, 7, 5, 5, 8, 8, 8, 9, 9, 9, 9, 7};
         for (int i = 0; i < calls.length; i++) {
-            PearlHouse h = Check.begun("sema s 9;bolt b;task t 1 main{" + calls[i] + "log 1;}task u 1{log 2;}");
+            House h = Check.begun("sema s 9;bolt b;task t 1 main{" + calls[i] + "log 1;}task u 1{log 2;}");
             Check.due("run(2) of " + calls[i], 2, h.run(2));
             Check.due("induced(0, 1) of " + calls[i], due[i], h.induced(0, 1));
             Check.due("task(0, 7) of " + calls[i], due[i], h.task(0, 7));
@@ -331,7 +331,7 @@ public final class RunTest {
     }
 
     private static void reactions() {
-        PearlHouse h = Check.ran("task t 1 main{on any{log 1;}on 11{log 2;}if 1{on 12{log 3;}induce 11;log 4;}log 5;}", 20);
+        House h = Check.ran("task t 1 main{on any{log 1;}on 11{log 2;}if 1{on 12{log 3;}induce 11;log 4;}log 5;}", 20);
         Check.logs("that for it goes ahead of any", h, 2);
         h = Check.ran("task t 1 main{on 11{log 2;}if 1{on any{log 3;}induce 11;log 4;}log 5;}", 20);
         Check.logs("the inmost goes first", h, 3, 5);
@@ -352,7 +352,7 @@ public final class RunTest {
     }
 
     private static void reactionsInPlace() {
-        PearlHouse h = Check.ran("var a;task t 1 main{while a<3{on any{log 10;}a=a+1;if a=2{induce 12;}log a;}log 9;}", 40);
+        House h = Check.ran("var a;task t 1 main{while a<3{on any{log 10;}a=a+1;if a=2{induce 12;}log a;}log 9;}", 40);
         Check.logs("the while goes on", h, 1, 10, 3, 9);
         h = Check.ran("var a;proc p(){on 13{log 1;return 5;}induce 13;}proc q(){on 13{log 2;}induce 13;}"
             + "task t 1 main{a=do p();log a;a=do q();log a;}", 40);
@@ -364,7 +364,7 @@ public final class RunTest {
     }
 
     private static void signalsOutOfProcs() {
-        PearlHouse h = Check.begun("var a=1;proc p(){do q();log 1;}proc q(){if 1{on 12{}induce 11;}log 2;}task t 1 main{if 1{on 11{log 3;}a=do p();log 4;}log 5;}");
+        House h = Check.begun("var a=1;proc p(){do q();log 1;}proc q(){if 1{on 12{}induce 11;}log 2;}task t 1 main{if 1{on 11{log 3;}a=do p();log 4;}log 5;}");
         h.run(20);
         Check.logs("out of two procs", h, 3, 5);
         Check.due("value(0), not changed", 1, h.value(0));
@@ -379,7 +379,7 @@ public final class RunTest {
     }
 
     private static void changesNothing() {
-        PearlHouse h = Check.ran("var a=4;row r;sema s 9;sema u 0;task t 1 main{on any{log a;log size r;}make r 3;make r 21;}task v 2 main{on any{}give u,s;}"
+        House h = Check.ran("var a=4;row r;sema s 9;sema u 0;task t 1 main{on any{log a;log size r;}make r 3;make r 21;}task v 2 main{on any{}give u,s;}"
             + "task w 3 main{on any{}a=1/0;}task x 4 main{on any{}at 5 start y;at 0 start y;}task y 5{}", 7);
         Check.logs("the row stays", h, 4, 3);
         Check.due("sema(0)", 9, h.sema(0));
@@ -391,7 +391,7 @@ public final class RunTest {
     }
 
     private static void signalsEver() {
-        PearlHouse h = Check.begun("task t 1 main{while 1{on any{}induce 11;}}");
+        House h = Check.begun("task t 1 main{while 1{on any{}induce 11;}}");
         for (int i = 0; i < 15; i++) {
             Check.due("run(500)", 1, h.run(500));
         }
@@ -413,7 +413,7 @@ public final class RunTest {
     }
 
     private static void taskAnswers() {
-        PearlHouse h = Check.read("task t 4 main{log 1;start u;start u;start u;start u;start u;start u;prior t 7;log 1/0;}task u 9{log 2;}");
+        House h = Check.read("task t 4 main{log 1;start u;start u;start u;start u;start u;start u;prior t 7;log 1/0;}task u 9{log 2;}");
         Check.due("task(0, 0)", PearlHouse.STATE, h.task(0, 0));
         Check.due("task(9, 99), STATE goes first", PearlHouse.STATE, h.task(9, 99));
         h.begin();
@@ -442,7 +442,7 @@ public final class RunTest {
     }
 
     private static void values() {
-        PearlHouse h = Check.read("var a=-999999999;var b=999999999;var c;task t 1 main{c=3;}");
+        House h = Check.read("var a=-999999999;var b=999999999;var c;task t 1 main{c=3;}");
         Check.due("value(0), no run", 0, h.value(0));
         h.begin();
         Check.due("value(0)", -999999999, h.value(0));
@@ -455,7 +455,7 @@ public final class RunTest {
     }
 
     private static void logged() {
-        PearlHouse h = Check.begun("var a;task t 1 main{while a<205{a=a+1;log a;}}");
+        House h = Check.begun("var a;task t 1 main{while a<205{a=a+1;log a;}}");
         Check.due("logged(0)", 0, h.logged(0));
         h.run(500);
         h.run(500);
@@ -468,7 +468,7 @@ public final class RunTest {
     }
 
     private static void induced() {
-        PearlHouse h = Check.read("var a;task s 9{}task t 1 main{while a<105{on any{a=a+1;}log 5;induce 10+a/100;}}");
+        House h = Check.read("var a;task s 9{}task t 1 main{while a<105{on any{a=a+1;}log 5;induce 10+a/100;}}");
         Check.due("induced(0, 0), no run", PearlHouse.NONE, h.induced(0, 0));
         h.begin();
         Check.due("induced(0, 0), none yet", PearlHouse.NONE, h.induced(0, 0));
@@ -486,7 +486,7 @@ public final class RunTest {
     }
 
     private static void counts() {
-        PearlHouse h = Check.read("sema s 0;irpt i;proc p(){on 4{}log 1/0;}proc q(){}task t 1 main{do p();do q();log 7;all 5 start u;when i go u;start v;ask s;}"
+        House h = Check.read("sema s 0;irpt i;proc p(){on 4{}log 1/0;}proc q(){}task t 1 main{do p();do q();log 7;all 5 start u;when i go u;start v;ask s;}"
             + "task u 2{log 1;}task v 3{hold v;log 2;}");
         Check.due("count(0)", PearlHouse.STATE, h.count(0));
         Check.due("count(10), STATE goes first", PearlHouse.STATE, h.count(10));
@@ -501,7 +501,7 @@ public final class RunTest {
     }
 
     private static void beginAgain() {
-        PearlHouse h = Check.begun("sema s 0;bolt b;irpt i;proc q(){}proc p(){on 11{ask s;}induce 11;}task t 1 main{do q();pull i;start t;start t;start t;start t;enter b;do p();}"
+        House h = Check.begun("sema s 0;bolt b;irpt i;proc q(){}proc p(){on 11{ask s;}induce 11;}task t 1 main{do q();pull i;start t;start t;start t;start t;enter b;do p();}"
             + "task u 2 main{hold u;log 1;}task v 3 main{ask s;}task w 4{log 1;}");
         h.run(20);
         Check.due("task(0, 3)", 3, h.task(0, 3));
@@ -548,7 +548,7 @@ public final class RunTest {
         for (int i = 0; i < 6; i++) {
             text.append("proc p").append(i).append("(x,y,z){return x*100+y*10+z;}");
         }
-        PearlHouse h = Check.begun(text.toString());
+        House h = Check.begun(text.toString());
         h.run(24);
         for (int i = 0; i < 8; i++) {
             Check.due("value(" + i + ")", 11 + i, h.value(i));
@@ -582,7 +582,7 @@ public final class RunTest {
 
     /** As many nodes as there may be, and as deep. */
     private static void longText() {
-        PearlHouse h = Check.begun("task t 1 main{" + Check.times(199, "log 1;") + "log 1" + Check.times(100, "+1") + ";}");
+        House h = Check.begun("task t 1 main{" + Check.times(199, "log 1;") + "log 1" + Check.times(100, "+1") + ";}");
         h.run(500);
         Check.due("logged(198)", 1, h.logged(198));
         Check.due("logged(199)", 101, h.logged(199));

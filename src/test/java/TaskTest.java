@@ -32,7 +32,7 @@ public final class TaskTest {
     }
 
     private static void trigger() {
-        PearlHouse h = Check.read("irpt i;irpt j;task a 1 main{when i start b;disable j;when j start b;}task b 2{log time;}");
+        House h = Check.read("irpt i;irpt j;task a 1 main{when i start b;disable j;when j start b;}task b 2{log time;}");
         Check.due("trigger(0)", PearlHouse.STATE, h.trigger(0));
         Check.due("trigger(9), STATE goes first", PearlHouse.STATE, h.trigger(9));
         h.begin();
@@ -57,7 +57,7 @@ public final class TaskTest {
     }
 
     private static void irptAnswers() {
-        PearlHouse h = Check.read("irpt i;task a 1 main{pull i;disable i;pull i;pull i;when i start b;enable i;enable i;pull i;}task b 2{log 1;}");
+        House h = Check.read("irpt i;task a 1 main{pull i;disable i;pull i;pull i;when i start b;enable i;enable i;pull i;}task b 2{log 1;}");
         Check.due("irpt(0, 0)", PearlHouse.STATE, h.irpt(0, 0));
         h.begin();
         Check.due("irpt(-1, 0)", PearlHouse.NONE, h.irpt(-1, 0));
@@ -77,7 +77,7 @@ public final class TaskTest {
     }
 
     private static void irptOrder() {
-        PearlHouse h = Check.begun("irpt i;task a 5{log 1;}task b 3{log 2;}task c 5{log 3;}task d 9 main{prior d 1;when i start a;when i start b;when i start c;pull i;"
+        House h = Check.begun("irpt i;task a 5{log 1;}task b 3{log 2;}task c 5{log 3;}task d 9 main{prior d 1;when i start a;when i start b;when i start c;pull i;"
             + "prior d 9;}");
         h.run(9);
         Check.logs("by priority, then by tasks", h, 2, 1, 3);
@@ -99,7 +99,7 @@ public final class TaskTest {
     }
 
     private static void send() {
-        PearlHouse h = Check.read("var v;in m;in n;task a 1 main{take n v;log v;take n v;log v;}");
+        House h = Check.read("var v;in m;in n;task a 1 main{take n v;log v;take n v;log v;}");
         Check.due("send(0, 1)", PearlHouse.STATE, h.send(0, 1));
         h.begin();
         Check.due("send(-1, 1)", PearlHouse.NONE, h.send(-1, 1));
@@ -128,7 +128,7 @@ public final class TaskTest {
     }
 
     private static void starts() {
-        PearlHouse h = Check.begun("task a 1 main{start b;start b;start a;log 1;}task b 2{log 2;}");
+        House h = Check.begun("task a 1 main{start b;start b;start a;log 1;}task b 2{log 2;}");
         h.run(3);
         Check.due("task(0, 3), itself", 1, h.task(0, 3));
         h.run(1);
@@ -148,7 +148,7 @@ public final class TaskTest {
     }
 
     private static void ends() {
-        PearlHouse h = Check.begun("sema s 0;bolt b;task a 1 main{start c;end c;after 5 go b1;at 9 start b1;end b1;end a;log 1;}task b1 2 main{reserve b;ask s;}"
+        House h = Check.begun("sema s 0;bolt b;task a 1 main{start c;end c;after 5 go b1;at 9 start b1;end b1;end a;log 1;}task b1 2 main{reserve b;ask s;}"
             + "task c 3{log 9;}");
         h.run(2);
         Check.due("task(2, 0)", 0, h.task(2, 0));
@@ -178,7 +178,7 @@ public final class TaskTest {
     }
 
     private static void holds() {
-        PearlHouse h = Check.begun("sema s 0;task a 5 main{hold b;log state b;hold c;log state c;go b;log state b;go c;log state c;}"
+        House h = Check.begun("sema s 0;task a 5 main{hold b;log state b;hold c;log state c;go b;log state b;go c;log state c;}"
             + "task b 9 main{log 7;}task c 1 main{ask s;}");
         h.run(20);
         Check.logs("states", h, 2, 4, 1, 3, 7);
@@ -195,7 +195,7 @@ public final class TaskTest {
     }
 
     private static void priors() {
-        PearlHouse h = Check.begun("sema s 0;task a 1 main{ask s;log 1;}task b 1 main{ask s;log 2;}task c 5 main{prior a 9;give s;give s;prior c 5;log 3;}");
+        House h = Check.begun("sema s 0;task a 1 main{ask s;log 1;}task b 1 main{ask s;log 2;}task c 5 main{prior a 9;give s;give s;prior c 5;log 3;}");
         h.run(3);
         Check.due("task(0, 1)", 9, h.task(0, 1));
         Check.due("waits(2, 0, 0)", 1, h.waits(2, 0, 0));
@@ -209,7 +209,7 @@ public final class TaskTest {
     }
 
     private static void schedules() {
-        PearlHouse h = Check.read("irpt i;task a 1 main{at 3 start b;after 3 go b;all 4 start a;all 4 until 9 go a;when i start c;log 1;}task b 1{log 2;}task c 1{}");
+        House h = Check.read("irpt i;task a 1 main{at 3 start b;after 3 go b;all 4 start a;all 4 until 9 go a;when i start c;log 1;}task b 1{log 2;}task c 1{}");
         Check.due("schedule(0, 0, 0)", PearlHouse.STATE, h.schedule(0, 0, 0));
         h.begin();
         h.run(5);
@@ -249,18 +249,18 @@ public final class TaskTest {
         String[] good = {"at 100000000*10 start b;", "after 100000000*10 start b;", "all 100000000*10 go b;", "all 5 until 5 go b;", "all 5 until 200000000*10 go b;",
             "at 0 go b;", "after 1 go b;"};
         for (String s : good) {
-            PearlHouse h = Check.ran("task a 1 main{" + s + "log 1;}task b 1{log 1;}", 1);
+            House h = Check.ran("task a 1 main{" + s + "log 1;}task b 1{log 1;}", 1);
             Check.due(s + " induces", 0, h.count(4));
             Check.due(s + " is there", 1, h.count(6));
         }
         String[] bad = {"at 0-1 start b;", "at 100000000*10+1 start b;", "after 100000000*10+1 start b;", "after -5 start b;", "all -1 start b;",
             "all 100000000*10+1 start b;", "all 5 until -1 start b;", "all 5 until 4 start b;", "after 0 go b;", "all 0 until 5 go b;"};
         for (String s : bad) {
-            PearlHouse h = Check.ran("task a 1 main{" + s + "log 1;}task b 1{log 1;}", 1);
+            House h = Check.ran("task a 1 main{" + s + "log 1;}task b 1{log 1;}", 1);
             Check.due(s + " induces", 9, h.induced(0, 1));
             Check.due(s + " is none", 0, h.count(6));
         }
-        PearlHouse h = Check.ran("task a 1 main{log 1;after 100000000*10 start b;}task b 1{log 1;}", 2);
+        House h = Check.ran("task a 1 main{log 1;after 100000000*10 start b;}task b 1{log 1;}", 2);
         Check.due("TIME 1 and 1000000000", 9, h.induced(0, 1));
         h = Check.ran("task a 1 main{log 1;log 2;at 1 start b;}task b 1{log 1;}", 3);
         Check.due("below TIME", 9, h.induced(0, 1));
@@ -273,7 +273,7 @@ public final class TaskTest {
     }
 
     private static void scheduleOrder() {
-        PearlHouse h = Check.begun("task m 1 main{at 9 start c;at 9 start a;at 8 start d;at 9 start b;hold m;}task a 5{log 1;}task b 5{log 2;}task c 5{log 3;}task d 6{log 4;}");
+        House h = Check.begun("task m 1 main{at 9 start c;at 9 start a;at 8 start d;at 9 start b;hold m;}task a 5{log 1;}task b 5{log 2;}task c 5{log 3;}task d 6{log 4;}");
         h.run(5);
         h.run(1);
         Check.due("count(0), to the next time", 8, h.count(0));
@@ -297,7 +297,7 @@ public final class TaskTest {
         for (char t = 'b'; t <= 'h'; t++) {
             text.append("task ").append(t).append(" 1{log 1;}");
         }
-        PearlHouse h = Check.begun(text.toString());
+        House h = Check.begun(text.toString());
         h.run(12);
         Check.due("count(6)", 12, h.count(6));
         h.run(2);
@@ -314,7 +314,7 @@ public final class TaskTest {
     }
 
     private static void schedulesGone() {
-        PearlHouse h = Check.begun("irpt i;task a 1 main{all 2 start b;when i go b;after 50 start c;prevent b;prevent b;log 1;}task b 1{log 5;}task c 1{log 6;}");
+        House h = Check.begun("irpt i;task a 1 main{all 2 start b;when i go b;after 50 start c;prevent b;prevent b;log 1;}task b 1{log 5;}task c 1{log 6;}");
         h.run(5);
         Check.due("count(6)", 1, h.count(6));
         Check.due("schedule(1, 0, 0)", PearlHouse.NONE, h.schedule(1, 0, 0));
@@ -336,7 +336,7 @@ public final class TaskTest {
     }
 
     private static void semas() {
-        PearlHouse h = Check.read("sema s 1;sema u 0;task a 1 main{ask s;give u;give u;ask s;log 1;}task b 2 main{give s;}");
+        House h = Check.read("sema s 1;sema u 0;task a 1 main{ask s;give u;give u;ask s;log 1;}task b 2 main{give s;}");
         Check.due("sema(0)", PearlHouse.STATE, h.sema(0));
         h.begin();
         Check.due("sema(-1)", PearlHouse.NONE, h.sema(-1));
@@ -356,7 +356,7 @@ public final class TaskTest {
     }
 
     private static void semaLists() {
-        PearlHouse h = Check.begun("sema s 2;sema u 0;task a 1 main{ask s,s;give s,u,s;ask u,s;log 1;ask s,s;log 2;}");
+        House h = Check.begun("sema s 2;sema u 0;task a 1 main{ask s,s;give s,u,s;ask u,s;log 1;ask s,s;log 2;}");
         h.run(3);
         Check.due("sema(0)", 1, h.sema(0));
         Check.due("sema(1)", 0, h.sema(1));
@@ -373,7 +373,7 @@ public final class TaskTest {
     }
 
     private static void semaServing() {
-        PearlHouse h = Check.begun("sema s 0;sema u 0;task a 3 main{ask s,u;log 1;}task b 4 main{ask s;log 2;}task c 4 main{ask u;log 3;}task d 9 main{give s;give s;give u;log 4;}");
+        House h = Check.begun("sema s 0;sema u 0;task a 3 main{ask s,u;log 1;}task b 4 main{ask s;log 2;}task c 4 main{ask u;log 3;}task d 9 main{give s;give s;give u;log 4;}");
         h.run(3);
         h.run(1);
         Check.due("task(0, 0), a can't have both", 3, h.task(0, 0));
@@ -395,7 +395,7 @@ public final class TaskTest {
     private static void semasBehindFaults() {
         String[] faults = {"sema a 1;sema b", "sema a 1;sema b;", "sema a 1;sema b 10;", "sema a;", "sema a 1;sema b 2;sema c 3;sema d", "sema a 9;sema b 9;sema c 9;sema d 9;&"};
         for (String fault : faults) {
-            PearlHouse h = new PearlHouse();
+            House h = new House();
             Check.feed(h, fault);
             Check.due("module() of " + fault, 1, h.module() < -10 ? 1 : 0);
             Check.feed(h, "sema a 1;task t 1 main{ask a;ask a;log 5;}task u 2 main{give a;}");
@@ -414,7 +414,7 @@ public final class TaskTest {
     }
 
     private static void bolts() {
-        PearlHouse h = Check.read("bolt b;task a 1 main{reserve b;log 1;free b;enter b;enter b;leave b;leave b;leave b;}");
+        House h = Check.read("bolt b;task a 1 main{reserve b;log 1;free b;enter b;enter b;leave b;leave b;leave b;}");
         Check.due("bolt(0, 0)", PearlHouse.STATE, h.bolt(0, 0));
         h.begin();
         Check.due("bolt(-1, 0)", PearlHouse.NONE, h.bolt(-1, 0));
@@ -444,7 +444,7 @@ public final class TaskTest {
 
     private static void boltEntering() {
         String text = "bolt b;task a 1 main{enter b;hold a;log 1;}task r 5 main{reserve b;log 2;}task e 6 main{PRIO enter b;log 3;hold e;log 5;}task f 9 main{log 4;go a;}";
-        PearlHouse h = Check.begun(text.replace("PRIO", ""));
+        House h = Check.begun(text.replace("PRIO", ""));
         h.run(4);
         Check.due("task(2, 0), behind who waits to reserve", 3, h.task(2, 0));
         h = Check.begun(text.replace("PRIO", "prior e 5;"));
@@ -467,7 +467,7 @@ public final class TaskTest {
     }
 
     private static void boltServing() {
-        PearlHouse h = Check.begun("bolt b;task a 1 main{reserve b;hold a;free b;log 1;}task r 5 main{reserve b;log 2;free b;}task e 4 main{enter b;log 3;leave b;log 6;}"
+        House h = Check.begun("bolt b;task a 1 main{reserve b;hold a;free b;log 1;}task r 5 main{reserve b;log 2;free b;}task e 4 main{enter b;log 3;leave b;log 6;}"
             + "task f 6 main{enter b;log 4;}task g 9 main{go a;}");
         h.run(5);
         Check.due("waits(3, 0, 0)", 2, h.waits(3, 0, 0));
@@ -487,7 +487,7 @@ public final class TaskTest {
     }
 
     private static void heldWaiters() {
-        PearlHouse h = Check.begun("sema s 0;task a 1 main{ask s;log 1;}task b 2 main{hold a;give s;log state a;go a;log 2;}");
+        House h = Check.begun("sema s 0;task a 1 main{ask s;log 1;}task b 2 main{hold a;give s;log state a;go a;log 2;}");
         h.run(2);
         Check.due("task(0, 0)", 4, h.task(0, 0));
         Check.due("waits(2, 0, 0)", 0, h.waits(2, 0, 0));
@@ -503,7 +503,7 @@ public final class TaskTest {
     }
 
     private static void takes() {
-        PearlHouse h = Check.begun("var v;var w;in n;task a 2 main{take n v;log v;}task b 1 main{take n w;log w;}");
+        House h = Check.begun("var v;var w;in n;task a 2 main{take n v;log v;}task b 1 main{take n w;log w;}");
         h.run(5);
         Check.due("waits(5, 0, 0)", 1, h.waits(5, 0, 0));
         Check.due("waits(5, 0, 1)", 0, h.waits(5, 0, 1));
@@ -521,7 +521,7 @@ public final class TaskTest {
     }
 
     private static void sent() {
-        PearlHouse h = Check.read("var a;out o;out p;task t 1 main{on 8{log a;}put p -5;while 1{a=a+1;put o a;}}");
+        House h = Check.read("var a;out o;out p;task t 1 main{on 8{log a;}put p -5;while 1{a=a+1;put o a;}}");
         Check.due("sent(0, NONE), no run", 0, h.sent(0, -1));
         h.begin();
         Check.due("sent(0, NONE)", 0, h.sent(0, -1));
@@ -539,7 +539,7 @@ public final class TaskTest {
     }
 
     private static void waits() {
-        PearlHouse h = Check.read("sema s 0;sema u 0;bolt b;in n;var v;task a 2 main{ask s,u,s;}task c 1 main{ask u;}task d 2 main{ask s;}task e 3 main{take n v;}"
+        House h = Check.read("sema s 0;sema u 0;bolt b;in n;var v;task a 2 main{ask s,u,s;}task c 1 main{ask u;}task d 2 main{ask s;}task e 3 main{take n v;}"
             + "task f 4 main{reserve b;reserve b;}");
         Check.due("waits(2, 0, 0)", PearlHouse.STATE, h.waits(2, 0, 0));
         Check.due("waits(9, 0, 0), STATE goes first", PearlHouse.STATE, h.waits(9, 0, 0));
@@ -564,7 +564,7 @@ public final class TaskTest {
     }
 
     private static void rings() {
-        PearlHouse h = Check.read("bolt b;bolt c;task x 9 main{log 1;}task a 1 main{reserve b;hold a;reserve c;}task d 2 main{reserve c;go a;enter b;}task e 3 main{enter b;}");
+        House h = Check.read("bolt b;bolt c;task x 9 main{log 1;}task a 1 main{reserve b;hold a;reserve c;}task d 2 main{reserve c;go a;enter b;}task e 3 main{enter b;}");
         Check.due("ring(0)", PearlHouse.STATE, h.ring(0));
         h.begin();
         Check.due("ring(0)", PearlHouse.NONE, h.ring(0));

@@ -25,7 +25,7 @@ public final class TextTest {
     }
 
     private static void newObject() {
-        PearlHouse h = new PearlHouse();
+        House h = new House();
         Check.due("place()", PearlHouse.NONE, h.place());
         for (int sort = 0; sort <= 10; sort++) {
             Check.due("declared(" + sort + ")", 0, h.declared(sort));
@@ -38,7 +38,7 @@ public final class TextTest {
     }
 
     private static void feed() {
-        PearlHouse h = new PearlHouse();
+        House h = new House();
         Check.due("feed(0, -1)", PearlHouse.BAD, h.feed(0, -1));
         Check.due("feed(0, 9)", PearlHouse.BAD, h.feed(0, 9));
         Check.due("feed(0, 0)", 0, h.feed(0, 0));
@@ -49,6 +49,7 @@ public final class TextTest {
         Check.due("feed(-1, 8)", 8, h.feed(-1L, 8));
         Check.due("feed(1, 0)", 0, h.feed(1, 0));
         Check.due("module() of an empty tape", 0, h.module());
+        h = new House();
         for (int i = 1; i <= 499; i++) {
             Check.due("feed of 8 blanks", 8 * i, h.feed(0x2020202020202020L, 8));
         }
@@ -62,7 +63,7 @@ public final class TextTest {
     }
 
     private static void module() {
-        PearlHouse h = Check.read("task a 1 {} task b 2 main { log 1; }");
+        House h = Check.read("task a 1 {} task b 2 main { log 1; }");
         Check.due("declared(8)", 2, h.declared(8));
         Check.due("begin()", 1, h.begin());
         Check.feed(h, "task c 1 {");
@@ -86,7 +87,7 @@ public final class TextTest {
     }
 
     private static void place() {
-        PearlHouse h = new PearlHouse();
+        House h = new House();
         Check.feed(h, "row ;");
         Check.due("module()", -12, h.module());
         Check.due("place()", 4, h.place());
@@ -104,7 +105,7 @@ public final class TextTest {
     }
 
     private static void declared() {
-        PearlHouse h = Check.read("var a; var b; row c; sema d 0; bolt e; irpt f; in g; in h; out i; proc p() {} task t 1 {}"
+        House h = Check.read("var a; var b; row c; sema d 0; bolt e; irpt f; in g; in h; out i; proc p() {} task t 1 {}"
             + "task u 2 { if a { log 1; } else { log c[b] + size c; } c[0] = time; a = -a * (b + 2) > state t; do p(); }");
         int[] due = {2, 1, 1, 1, 1, 2, 1, 1, 2, 6, 16};
         for (int sort = 0; sort <= 10; sort++) {
@@ -118,7 +119,7 @@ public final class TextTest {
     }
 
     private static void find() {
-        PearlHouse h = Check.read("var a; var abcdefg1; in n; out o; in m; task z9 1 {} proc p(q) {}");
+        House h = Check.read("var a; var abcdefg1; in n; out o; in m; task z9 1 {} proc p(q) {}");
         Check.due("find(0, a)", 0, h.find(0, Check.name("a")));
         Check.due("find(0, abcdefg1)", 1, h.find(0, Check.name("abcdefg1")));
         Check.due("find(0, abcdefg)", PearlHouse.NONE, h.find(0, Check.name("abcdefg")));
@@ -140,7 +141,7 @@ public final class TextTest {
         String[] texts = {"&", "row", "task t 1{" + Check.times(201, "end;"), "row r;row r;", "sema s 10;", "task t 1{log x;}",
             "proc p(){}task t 1{do p(1);}"};
         for (int i = 0; i < texts.length; i++) {
-            PearlHouse h = Check.ran("var a = 7; task t 1 main { a = 8; a = 9; }", 1);
+            House h = Check.ran("var a = 7; task t 1 main { a = 8; a = 9; }", 1);
             Check.feed(h, texts[i]);
             Check.due("module() of " + texts[i], -11 - i, h.module());
             Check.due("the var of the run", 8, h.value(0));
@@ -149,7 +150,7 @@ public final class TextTest {
             Check.due("declared(9)", 2, h.declared(9));
             Check.due("feed behind the fault " + (i + 1), 1, h.feed(' ', 1));
         }
-        PearlHouse h = new PearlHouse();
+        House h = new House();
         h.feed(0, 1);
         Check.due("module()", -11, h.module());
         Check.due("module() of the empty tape", 0, h.module());
@@ -275,7 +276,7 @@ public final class TextTest {
         }
         Check.fault(2, "proc p(a,b,c){}task t 1{do p(1,2,3,@);}");
         String many = "task t 1{" + Check.times(200, "end;");
-        PearlHouse h = Check.read(many + "}");
+        House h = Check.read(many + "}");
         Check.due("declared(9)", 200, h.declared(9));
         Check.fault(3, many + "@end;}");
         Check.fault(3, many + "@if 1{}}");
@@ -287,7 +288,7 @@ public final class TextTest {
 
     private static void tooManyNodes() {
         String full = "task t 1{" + Check.times(199, "log 1;") + "log 1" + Check.times(100, "+1");
-        PearlHouse h = Check.read(full + ";}");
+        House h = Check.read(full + ";}");
         Check.due("declared(10)", 400, h.declared(10));
         Check.fault(3, full + "@+1;}");
         String nearly = "var a;row r;task t 1{" + Check.times(197, "log 1;") + "log 1" + Check.times(101, "+1") + ";";
@@ -389,7 +390,7 @@ public final class TextTest {
 
     /** What a text left behind, be it at a fault or not, is no part of the next one. */
     private static void readAgain() {
-        PearlHouse h = new PearlHouse();
+        House h = new House();
         String[] texts = {"sema s 55", "sema s 5", "proc p(){}task t 1{do p(1);}", "task t 1{}", "task t 1" + Check.times(11, "{if 1") + "{&",
             "task t 1" + Check.times(11, "{if 1") + "{" + Check.times(12, "}"), "proc p(x){&", "task t 1{return 1;}", "proc p(x){&", "task t 1{log x;}",
             "row r[", "task t 1{log r", "var a;var b;", "var a;", "proc p(){}", "task p 1{}"};
@@ -400,7 +401,7 @@ public final class TextTest {
             Check.due("module() of " + texts[i], due[i], h.module());
             Check.due("place() of " + texts[i], places[i], h.place());
         }
-        h = new PearlHouse();
+        h = new House();
         String[] modules = {"bolt b;task t 1{reserve b;}", "bolt b;task t 1{reserve b;}", "task z 1{}task t 1 main{end;}"};
         for (String text : modules) {
             Check.feed(h, text);
@@ -424,7 +425,7 @@ public final class TextTest {
             text.append("induce ").append(i).append(";}");
         }
         text.append("induce 18;}");
-        PearlHouse h = Check.read(text.toString());
+        House h = Check.read(text.toString());
         Check.due("begin()", 1, h.begin());
         h.run(2);
         Check.due("blocks", 1, blocks > 300 ? 1 : 0);
