@@ -11,8 +11,13 @@ abstract class Check {
     static void due(String call, long want, long got) {
         if (got != want) {
             wrong++;
-            System.out.println(sentence + call + " answered " + got + ", due is " + want);
+            System.out.println(sentence + shortened(call) + " answered " + got + ", due is " + want);
         }
+    }
+
+    private static String shortened(String call) {
+        int most = 400;
+        return call.length() <= most ? call : call.substring(0, most / 2) + " .. " + call.substring(call.length() - most / 2);
     }
 
     /** The answer of the latest call. */
