@@ -404,6 +404,16 @@ public final class ActsTest extends Check {
         logs("then by tasks", h, 1, 2, 3);
         h = ran("irpt i;task a 9{log 1;}task b 1{log 2;}task m 1 main{when i start a;when i start b;pull i;}", 20);
         logs("the first and the last PRIORITY", h, 2, 1);
+        StringBuilder text = new StringBuilder("irpt i;task t7 1 main{");
+        for (int t = 0; t < 7; t++) {
+            text.append("when i start t").append(t).append(';');
+        }
+        text.append("pull i;}");
+        for (int t = 6; t >= 0; t--) {
+            text.append("task t").append(t).append(" 2{log ").append(t).append(";}");
+        }
+        h = ran(text.toString(), 20);
+        logs("eight tasks", h, 6, 5, 4, 3, 2, 1, 0);
     }
 
     @Holds("Terms: disabled, it is KEPT (once), and comes when it is enabled.")

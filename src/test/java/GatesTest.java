@@ -109,6 +109,8 @@ public final class GatesTest extends Check {
         h = ran("bolt b;task x 1 main{enter b;hold x;log 1;}task f 2 main{reserve b;}task m 3 main{hold f;hold m;log 1;}task e 4 main{enter b;log 3;}", 6);
         due(4, h.task(1, 0));
         due(3, h.task(3, 0));
+        h = ran("bolt b;task r 2 main{reserve b;}task x 1 main{enter b;hold x;log 1;}task e 3 main{enter b;log 3;}", 4);
+        due(3, h.task(2, 0));
     }
 
     @Holds("Terms: one may enter several times.")
@@ -137,6 +139,11 @@ public final class GatesTest extends Check {
         h = ran("bolt b;task a 1 main{enter b;hold a;log 1;}task d 2 main{leave b;}", 3);
         due(8, h.induced(0, 1));
         due(1, h.bolt(0, 1));
+        h = ran("bolt b;bolt c;task a 1 main{enter b;enter c;hold a;log 1;}task d 2 main{enter b;enter c;leave c;leave b;log 1;}", 7);
+        due(1, h.bolt(0, 2));
+        due(1, h.bolt(1, 2));
+        due(0, h.bolt(0, 3));
+        due(0, h.bolt(1, 3));
     }
 
     @Holds("Terms: take: the eldest number in the in comes to the var; without one the task WAITS.")
@@ -339,10 +346,14 @@ public final class GatesTest extends Check {
         for (int t = 0; t < 8; t++) {
             text.append("task t").append(t).append(" 1 main{enter b;hold t").append(t).append(";reserve b;}");
         }
-        h = ran(text.toString().replace("hold t7;", "go t0;go t1;go t2;go t3;go t4;go t5;go t6;"), 60);
-        for (int k = 0; k < 8; k++) {
-            due(k, h.ring(k));
+        String ring = text.toString().replace("hold t7;", "go t0;go t1;go t2;go t3;go t4;go t5;go t6;");
+        for (String bolts : new String[] {"", "bolt w;bolt x;bolt y;"}) {
+            h = ran(bolts + ring, 60);
+            for (int k = 0; k < 8; k++) {
+                due(k, h.ring(k));
+            }
+            due(NONE, h.ring(8));
+            due(8, h.bolt(bolts.isEmpty() ? 0 : 3, 1));
         }
-        due(NONE, h.ring(8));
     }
 }

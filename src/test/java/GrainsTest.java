@@ -130,6 +130,26 @@ public final class GrainsTest extends Check {
         due(1, h.send(0, 8));
     }
 
+    @Holds("Terms: ins and outs, LOG and INDUCED empty, all counts of the run 0,")
+    private static void countsOfEachTaskBegin() {
+        House h = begun("sema s 0;irpt i;irpt j;irpt k;irpt l;proc p(){induce 11;}proc q(){on 11{ask s;}do p();}task m 5 main{disable l;pull l;start u;start u;start u;start u;start u;start u;}"
+            + "task u 1{if s1{do q();}s1=1;}var s1;task w 6 main{log 1;}");
+        h.run(30);
+        int[] due = {3, 1, 1, 3, 1, 2, 1, 11, 1};
+        for (int what = 0; what <= 8; what++) {
+            due(due[what], h.task(1, what));
+        }
+        due(1, h.irpt(3, 1));
+        due(2, h.begin());
+        for (int what = 0; what <= 8; what++) {
+            due(what == 2 ? NONE : 0, h.task(1, what));
+        }
+        due(1, h.irpt(3, 0));
+        due(0, h.irpt(3, 1));
+        due(NONE, h.waits(2, 0, 0));
+        due(NONE, h.ring(0));
+    }
+
     @Holds("Terms: all main tasks started, as they stand.")
     private static void mainTasksAreStarted() {
         House h = begun("task a 5 main{log 1;}task b 5{log 2;}task c 5 main{log 3;}task d 5 main{log 4;}");

@@ -264,6 +264,31 @@ public final class PromisesTest extends Check {
         }
     }
 
+    @Holds("Promise 3: -10 less the FAULT: what was there stays.")
+    private static void aTextBehindOthersIsReadAsByANewObject() {
+        String[] others = {"sema a 1;sema b", "sema a 9;sema b 9;sema c 9;sema d 9;&", "proc p(x){&", "task t 1" + times(11, "{if 1") + "{&", "proc p(){}task t 1{do p(1);}",
+            "var a=5;var b=6;task t 3 main{log 1+2+3;a=4;}", "proc p(x,y){return x;}task t 1 main{do p(1,2);}", "task t 1 main{on 5{log 1;}if 1{on any{}log 1/0;}}", "row a;row r[", "irpt i;in n;out o;bolt b;"};
+        String text = "sema a 1;var v;proc p(){on 4{log 4;}log 1/0;}row r;task t 1 main{ask a;ask a;v=v+5;log v;do p();}task u 2{log 9;}task w 2 main{give a;}";
+        for (String other : others) {
+            House h = new House();
+            moduleOf(h, other);
+            h.begin();
+            h.run(3);
+            moduleOf(h, other);
+            due("module() behind " + other, 3, moduleOf(h, text));
+            due(2, h.begin());
+            due(1, h.sema(0));
+            due(NONE, h.sema(1));
+            due(2, h.run(50));
+            logs("behind " + other, h, 5, 4);
+            due(0, h.task(1, 5));
+            due(8, h.count(2));
+            due(9, h.declared(9));
+            due(9, h.declared(10));
+            due(0, h.declared(3));
+        }
+    }
+
     @Holds("Promise 4: The place of the FAULT of the latest module(); NONE without one, and before.")
     private static void placeOfTheLatestFault() {
         House h = new House();
@@ -596,13 +621,13 @@ public final class PromisesTest extends Check {
 
     @Holds("Promise 14: Item i of a row; i = NONE: how many (-1: NONE). 0: there is none such.")
     private static void itemOfARow() {
-        House h = read("row a;row b;row c;task t 1 main{make a 20;a[0]=3;a[19]=-4;make b 0;make a 2;a[1]=9;lose a;}");
+        House h = read("row a;row b;row c;task t 1 main{make a 20;a[0]=3;a[19]=-4;a[2]=6;make b 0;make a 2;a[1]=9;lose a;}");
         due(0, h.item(0, NONE));
         due(0, h.item(0, 0));
         h.begin();
         due(-1, h.item(0, NONE));
         due(0, h.item(0, 0));
-        h.run(4);
+        h.run(5);
         due(20, h.item(0, NONE));
         due(3, h.item(0, 0));
         due(-4, h.item(0, 19));

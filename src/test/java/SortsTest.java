@@ -75,6 +75,69 @@ public final class SortsTest extends Check {
         due(7, h.value(2));
     }
 
+    @Holds("Terms: of each they are numbered from 0 as they stand;")
+    private static void theLastOfEachSort() {
+        StringBuilder text = new StringBuilder();
+        for (int i = 0; i < 8; i++) {
+            text.append("var v").append(i).append('=').append(10 + i).append(";task t").append(i).append(" 1 main{v").append(i).append("=v").append(i).append("*2;enter b3;log v").append(i).append(";}");
+        }
+        for (int i = 0; i < 4; i++) {
+            text.append("row r").append(i).append(";sema s").append(i).append(' ').append(2 * i).append(";bolt b").append(i).append(";irpt i").append(i).append(";out o").append(i).append(';');
+        }
+        House h = ran(text.toString(), 24);
+        for (int i = 0; i < 8; i++) {
+            due(20 + 2 * i, h.value(i));
+            due(20 + 2 * i, h.logged(i));
+            due(1, h.bolt(3, 2 + i));
+        }
+        due(8, h.bolt(3, 1));
+        due(0, h.bolt(2, 1));
+        for (int i = 0; i < 4; i++) {
+            due(2 * i, h.sema(i));
+            due(1, h.trigger(i));
+            due(1, h.irpt(i, 2));
+        }
+    }
+
+    @Holds("Terms: of each they are numbered from 0 as they stand;")
+    private static void theLastOfEachSortIsNoneOfTheOthers() {
+        House h = ran("row a;row b;row c;row d;sema e 0;sema f 0;sema g 0;sema h 8;irpt i;irpt j;irpt k;irpt l;out m;out n;out o;out p;bolt q;bolt r;bolt s;bolt t;"
+            + "task u 1 main{make a 2;make b 2;make c 2;make d 2;a[1]=1;b[1]=2;c[1]=3;d[1]=4;make b 2;make a 1;put p 6;put m 7;reserve t;ask h,h;disable l;pull l;pull k;"
+            + "if 1{on 8{}give h,h,h,h;}if 1{on 8{}leave t;}give h;make d 1;d[0]=9;same a d;}", 40);
+        int[] sizes = {1, 2, 2, 1};
+        int[] items = {9, 0, 0, 9};
+        for (int row = 0; row < 4; row++) {
+            due(sizes[row], h.item(row, NONE));
+            due(items[row], h.item(row, 0));
+        }
+        due(0, h.item(1, 1));
+        due(3, h.item(2, 1));
+        due(1, h.one(0, 3));
+        due(7, h.sema(3));
+        due(6, h.sent(3, 0));
+        due(7, h.sent(0, 0));
+        due(0, h.sent(1, NONE));
+        due(0, h.bolt(3, 0));
+        due(NONE, h.bolt(0, 0));
+        due(0, h.irpt(3, 0));
+        due(1, h.irpt(3, 1));
+        due(1, h.irpt(2, 2));
+        due(2, h.count(4));
+        h = begun("sema e 9;sema f 9;sema g 9;sema h 0;task t 1 main{ask h;log 1;}");
+        due(0, h.run(9));
+        h = begun("var v;in a;in b;in c;in d;task t 1 main{take d v;take d v;log v;}");
+        for (int i = 1; i <= 20; i++) {
+            due(i, h.send(3, i));
+        }
+        due(FULL, h.send(3, 21));
+        h.run(3);
+        logs("the last in", h, 2);
+        due(19, h.send(3, 21));
+        h = ran("var a=1;out m;out n;out o;out p;task t 1 main{while a<41{put p a;put m -a;a=a+1;}}", 200);
+        due(40, h.sent(3, 39));
+        due(-40, h.sent(0, 39));
+    }
+
     @Holds("Terms: PARAMETERS of a proc (known in its BLOCK, ahead of all of that NAME that is told) are 9.")
     private static void parametersAreKnownInTheirBlockAlone() {
         fits("proc p(x){on 1{log x;}if x{while x{x=x+1;}}else{return x;}}");

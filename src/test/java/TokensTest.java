@@ -54,6 +54,19 @@ public final class TokensTest extends Check {
         h = blanksAnd("row abc&");
         due(-11, h.module());
         due(3999, h.place());
+        for (String last : new String[] {"var abcd", "var a=12"}) {
+            h = blanksAnd(last);
+            due(-12, h.module());
+            due(4000, h.place());
+        }
+    }
+
+    @Holds("Terms: THE TAPE has 4000 bytes.")
+    private static void tapeMayEndInAnyToken() {
+        String[] ends = {"task t 1{log abc", "task t 1{log r[a", "task t 1 {abcdef", "task t 1 {log (1", "task t 1 {log 1+", "task t 1 { if 1{ "};
+        for (String end : ends) {
+            fault(2, 4000, times(3984, " ") + end);
+        }
     }
 
     @Holds("Terms: TOKENS, each as long as can be")
