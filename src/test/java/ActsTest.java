@@ -56,6 +56,11 @@ public final class ActsTest extends Check {
         due(0, h.task(0, 0));
         due(0, h.task(1, 0));
         due(0, h.count(3));
+        h = ran("task a 5 main{hold a;log 1;}task b 6 main{end;log 2;}task c 7 main{log 3;end;}", 20);
+        due(2, h.task(0, 0));
+        due(1, h.task(1, 6));
+        due(1, h.task(2, 6));
+        logs("itself without a NAME", h, 3);
         h = ran("task a 5 main{on 7{log 7;}end b;log 1;}task b 5{log 2;}", 20);
         logs("a DORMANT one", h, 7);
         due(0, h.task(1, 6));
@@ -78,6 +83,10 @@ public final class ActsTest extends Check {
             h = ran("task a 1 main{after 50 go a;after 60 start a;" + way + "}", 3);
             due("to go, " + way, NONE, h.schedule(0, 1, 0));
             due("to start, " + way, 61, h.schedule(0, 0, 0));
+            h = ran("task a 1 main{start a;after 50 go a;after 60 start a;" + way + "}", 4);
+            due("begun anew, " + way, 2, h.task(0, 5));
+            due("to go, begun anew, " + way, NONE, h.schedule(0, 1, 0));
+            due("to start, begun anew, " + way, 62, h.schedule(0, 0, 0));
         }
         h = ran("task a 5 main{after 50 go e;after 50 start e;start e;log 1;}task e 1{}", 3);
         due(NONE, h.schedule(1, 1, 0));

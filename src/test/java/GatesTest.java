@@ -164,6 +164,13 @@ public final class GatesTest extends Check {
         due(-6, h.value(0));
         due(1, h.task(0, 0));
         due(2, h.send(0, 1));
+        h = begun("var v;sema s 3;bolt b;in n;task a 1 main{take n v;take n v;log 1;}");
+        h.send(0, 2);
+        h.run(2);
+        h.send(0, 4);
+        due(NONE, h.bolt(0, 0));
+        due(0, h.bolt(0, 1));
+        due(3, h.sema(0));
         h = begun("var v;var c;in n;task a 1 main{while c<20{take n v;log v;c=c+1;}}");
         for (int i = 0; i < 20; i++) {
             h.send(0, 100 + i);
@@ -310,6 +317,11 @@ public final class GatesTest extends Check {
         due(NONE, h.ring(0));
         h = ran("sema s 0;sema u 0;task a 1 main{ask s;give u;}task d 2 main{ask u;give s;}", 9);
         due(NONE, h.ring(0));
+        for (String wait : new String[] {"ask s;", "ask u;", "ask u,s;", "take n v;", "take m v;"}) {
+            h = ran("var v;sema s 0;sema u 0;in n;in m;bolt b;bolt c;bolt d;bolt e;task a 1 main{reserve b;reserve c;reserve d;reserve e;" + wait + "}", 9);
+            due(3, h.task(0, 0));
+            due("ring(0) of one that has all bolts, " + wait, NONE, h.ring(0));
+        }
         h = ran("bolt b;task a 1 main{reserve b;reserve b;}", 1);
         due(NONE, h.ring(0));
     }

@@ -132,7 +132,7 @@ public final class GrainsTest extends Check {
 
     @Holds("Terms: ins and outs, LOG and INDUCED empty, all counts of the run 0,")
     private static void countsOfEachTaskBegin() {
-        House h = begun("sema s 0;irpt i;irpt j;irpt k;irpt l;proc p(){induce 11;}proc q(){on 11{ask s;}do p();}task m 5 main{disable l;pull l;start u;start u;start u;start u;start u;start u;}"
+        House h = begun("sema s 0;irpt i;irpt j;irpt k;irpt l;proc p(){induce 11;}proc q(){on 11{ask s;}do p();}task m 5 main{pull l;disable l;pull l;start u;start u;start u;start u;start u;start u;}"
             + "task u 1{if s1{do q();}s1=1;}var s1;task w 6 main{log 1;}");
         h.run(30);
         int[] due = {3, 1, 1, 3, 1, 2, 1, 11, 1};
@@ -140,12 +140,14 @@ public final class GrainsTest extends Check {
             due(due[what], h.task(1, what));
         }
         due(1, h.irpt(3, 1));
+        due(1, h.irpt(3, 2));
         due(2, h.begin());
         for (int what = 0; what <= 8; what++) {
             due(what == 2 ? NONE : 0, h.task(1, what));
         }
         due(1, h.irpt(3, 0));
         due(0, h.irpt(3, 1));
+        due(0, h.irpt(3, 2));
         due(NONE, h.waits(2, 0, 0));
         due(NONE, h.ring(0));
     }
@@ -350,6 +352,13 @@ public final class GrainsTest extends Check {
         h.run(1);
         due(0, h.task(0, 0));
         due(2, h.count(9));
+        h = begun("proc p(x){" + times(10, "if 1{") + "if x{do p(x-1);}" + times(11, "}") + "task t 1 main{" + times(11, "if 1{") + "do p(7);" + times(12, "}"));
+        h.run(106);
+        due(1, h.task(0, 0));
+        due(8, h.task(0, 8));
+        h.run(1);
+        due(0, h.task(0, 0));
+        due(8, h.count(9));
         h = begun("irpt i;task t 1 main{when i start t;pull i;}");
         h.run(2);
         due(1, h.task(0, 0));
@@ -457,6 +466,22 @@ public final class GrainsTest extends Check {
         House h = ran("row r;row q;task t 1 main{make r 3;r[0]=4;r[2]=5;same q r;make r 3;log r[0]+r[1]+r[2];log q[0];make q 20;log size r;log q[19];make q 0;log size q;make r 2;r[1]=1;make r 2;log r[1];}", 30);
         logs("new arrays", h, 0, 4, 3, 0, 0, 0);
         due(0, h.one(0, 1));
+        String names = "abcd";
+        for (int first = 0; first < 4; first++) {
+            StringBuilder text = new StringBuilder("row a;row b;row c;row d;task t 1 main{");
+            for (int i = 0; i < 4; i++) {
+                char row = names.charAt((first + i) % 4);
+                text.append("make ").append(row).append(" 3;").append(row).append("[2]=").append((first + i) % 4 + 5).append(';');
+            }
+            char again = names.charAt(first);
+            text.append("make ").append(again).append(" 2;").append(again).append("[1]=9;}");
+            h = ran(text.toString(), 10);
+            for (int row = 0; row < 4; row++) {
+                due(row == first ? 2 : 3, h.item(row, NONE));
+                due(row == first ? 0 : row + 5, h.item(row, 2));
+                due(row == first ? 9 : 0, h.item(row, 1));
+            }
+        }
     }
 
     @Holds("Terms: same: it has that of the second one;")

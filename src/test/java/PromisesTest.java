@@ -267,7 +267,8 @@ public final class PromisesTest extends Check {
     @Holds("Promise 3: -10 less the FAULT: what was there stays.")
     private static void aTextBehindOthersIsReadAsByANewObject() {
         String[] others = {"sema a 1;sema b", "sema a 9;sema b 9;sema c 9;sema d 9;&", "proc p(x){&", "task t 1" + times(11, "{if 1") + "{&", "proc p(){}task t 1{do p(1);}",
-            "var a=5;var b=6;task t 3 main{log 1+2+3;a=4;}", "proc p(x,y){return x;}task t 1 main{do p(1,2);}", "task t 1 main{on 5{log 1;}if 1{on any{}log 1/0;}}", "row a;row r[", "irpt i;in n;out o;bolt b;"};
+            "var a=5;var b=6;task t 3 main{log 1+2+3;a=4;}", "proc p(x,y){return x;}task t 1 main{do p(1,2);}", "task t 1 main{on 5{log 1;}if 1{on any{}log 1/0;}}", "row a;row r[", "irpt i;in n;out o;bolt b;",
+            "task t 1{" + times(150, "if 1{}else{}") + "}", "task t 1{" + times(100, "log 1+1;") + "log 1" + times(49, "+1") + ";}"};
         String text = "sema a 1;var v;proc p(){on 4{log 4;}log 1/0;}row r;task t 1 main{ask a;ask a;v=v+5;log v;do p();}task u 2{log 9;}task w 2 main{give a;}";
         for (String other : others) {
             House h = new House();
@@ -296,6 +297,8 @@ public final class PromisesTest extends Check {
         feed(h, "row ;");
         due(NONE, h.place());
         due(-12, h.module());
+        due(4, h.place());
+        due(0, h.feed(0, 0));
         due(4, h.place());
         feed(h, "  &");
         due(4, h.place());
@@ -521,6 +524,12 @@ public final class PromisesTest extends Check {
         due(0, h.task(2, 3));
         due(1, h.trigger(1));
         due(1, h.task(2, 3));
+        due(2, h.run(20));
+        due(0, h.task(2, 0));
+        due(1, h.trigger(1));
+        due(1, h.task(2, 0));
+        due(1, h.run(1));
+        due(2, h.run(1));
     }
 
     @Holds("Promise 11: A number comes to an in (20 wait there at most): how many wait. STATE; NONE; FULL.")
@@ -786,6 +795,13 @@ public final class PromisesTest extends Check {
             due(NONE, h.waits(3, number, 0));
             due(NONE, h.waits(5, number, 0));
         }
+        h = ran("var v;sema s 0;bolt k;in n;task a 9 main{reserve k;prior d 1;hold b;hold c;hold d;log 1;}task b 1 main{ask s;}task c 1 main{take n v;}task d 9 main{reserve k;}", 8);
+        for (int t = 1; t <= 3; t++) {
+            due(4, h.task(t, 0));
+        }
+        due(1, h.waits(2, 0, 0));
+        due(2, h.waits(5, 0, 0));
+        due(3, h.waits(3, 0, 0));
         for (int sort : new int[] {-1, 0, 1, 4, 6, 7, 8, 9, LEAST, MOST}) {
             due(BAD, h.waits(sort, 0, 0));
             due(BAD, h.waits(sort, -1, -1));

@@ -60,18 +60,19 @@ public final class SignalsTest extends Check {
 
     @Holds("Terms: 3 a size below 0 (above 20, too, and any, when 4000 arrays were made ever),")
     private static void fourThousandArraysEver() {
-        House h = begun("row r;task t 1 main{while 1{" + times(50, "make r 1;") + "}}");
+        House h = begun("row r;task t 1 main{if 1{on 3{}make r 21;}if 1{on 3{}make r -1;}while 1{" + times(50, "make r 1;") + "}}");
         for (int i = 0; i < 7; i++) {
             h.run(500);
         }
+        h.run(4);
         h.begin();
         h.run(500);
-        h.run(81);
-        due(0, h.count(4));
+        h.run(85);
+        due(2, h.count(4));
         due(1, h.item(0, NONE));
         h.run(1);
-        due(1, h.count(4));
-        due(3, h.induced(0, 1));
+        due(3, h.count(4));
+        due(3, h.induced(2, 1));
         feed(h, "row r;task t 1 main{on 3{make r 2;}make r 0;}");
         h.module();
         h.begin();
@@ -311,6 +312,9 @@ public final class SignalsTest extends Check {
         h = ran("proc p(){on 11{induce 11;log 9;}induce 11;}task t 1 main{on 11{log 4;}do p();}", 20);
         logs("out of a proc's on", h, 4);
         due(1, h.count(9));
+        h = ran("task t 1 main{on 12{log 1;}if 1" + times(10, "{on 11") + "{log 5;induce 12;}" + times(10, "induce 11;}") + "log 2;}", 30);
+        logs("out of ten ons within one another", h, 5, 1);
+        due(11, h.count(5));
     }
 
     @Holds("Terms: Without one the task ENDS.")
@@ -324,6 +328,11 @@ public final class SignalsTest extends Check {
         due(0, h.count(5));
         due(0, h.count(3));
         due(2, h.task(1, 0));
+        h = ran("proc p(x){" + times(10, "if 1{") + "if x{do p(x-1);}induce 11;" + times(11, "}") + "task t 1 main{" + times(11, "if 1{") + "do p(7);" + times(12, "}"), 200);
+        due(11, h.induced(0, 1));
+        due(1, h.count(4));
+        due(8, h.count(9));
+        due(0, h.task(0, 0));
         h = ran("task t 1 main{start t;induce 11;}", 2);
         due(1, h.task(0, 0));
         due(2, h.task(0, 5));
