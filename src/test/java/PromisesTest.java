@@ -593,6 +593,66 @@ public final class PromisesTest extends Check {
         }
     }
 
+    @Holds("Promise 12: 1 PRIORITY (0: DORMANT),")
+    private static void priorityOfATask() {
+        House h = begun("sema s 0;task a 4 main{prior a 3;hold b;hold c;end b;log 1;}task b 5 main{log 1;}task c 1 main{ask s;}task d 2{log 1;}");
+        int[] due = {4, 5, 1, 0};
+        for (int t = 0; t < 4; t++) {
+            due(due[t], h.task(t, 1));
+        }
+        h.run(5);
+        due(3, h.task(0, 1));
+        due(0, h.task(1, 1));
+        h = ran("sema s 0;task a 4 main{hold b;hold c;log 1;}task b 5 main{log 1;}task c 1 main{ask s;}", 3);
+        due(5, h.task(1, 1));
+        due(1, h.task(2, 1));
+    }
+
+    @Holds("Promise 12: 2 the S that it does next, by the text (WAITING: the one in which it waits; NONE),")
+    private static void theStatementThatATaskDoesNext() {
+        House h = read("sema s 0;proc p(){log 0;}task a 1 main{on 1{log 1;}if 1{log 3;}else{log 4;}do p();ask s;log 7;}task b 2{log 8;}task c 3 main{give s;log 10;}");
+        h.begin();
+        int[] due = {2, 3, 5, 0, 6};
+        for (int s : due) {
+            due(s, h.task(0, 2));
+            h.run(1);
+        }
+        due(3, h.task(0, 0));
+        due(6, h.task(0, 2));
+        due(NONE, h.task(1, 2));
+        due(9, h.task(2, 2));
+        h.run(1);
+        due(7, h.task(0, 2));
+        h.run(2);
+        due(NONE, h.task(0, 2));
+        due(NONE, h.task(2, 2));
+    }
+
+    @Holds("Promise 12: 3 STARTS KEPT, 4 LOST, 5 how often it began, 6 how often it ENDED,")
+    private static void startsAndEndsOfATask() {
+        House h = begun("task a 1 main{start b;start b;start b;start b;start b;start b;}task b 2{log 1;}");
+        int[][] due = {{0, 0, 0, 0}, {0, 0, 1, 0}, {1, 0, 1, 0}, {2, 0, 1, 0}, {3, 0, 1, 0}, {3, 1, 1, 0}, {3, 2, 1, 0}, {2, 2, 2, 1}, {1, 2, 3, 2}, {0, 2, 4, 3}, {0, 2, 4, 4}};
+        for (int[] one : due) {
+            for (int what = 3; what <= 6; what++) {
+                due(one[what - 3], h.task(1, what));
+            }
+            h.run(1);
+        }
+    }
+
+    @Holds("Promise 12: 7 the latest SIGNAL it induced (0), 8 procs under way.")
+    private static void latestSignalAndProcsOfATask() {
+        House h = begun("proc p(){do q();}proc q(){on 12{log 1;log 2;}induce 12;}task a 1 main{if 1{on any{}induce 3;}do p();induce 19;}task b 2 main{log 3;}");
+        int[][] due = {{0, 0}, {0, 0}, {3, 0}, {3, 1}, {3, 2}, {12, 2}, {12, 2}, {12, 0}, {19, 0}};
+        for (int[] one : due) {
+            due(one[0], h.task(0, 7));
+            due(one[1], h.task(0, 8));
+            due(0, h.task(1, 7));
+            due(0, h.task(1, 8));
+            h.run(1);
+        }
+    }
+
     @Holds("Promise 12: STATE; NONE; BAD.")
     private static void taskRefuses() {
         House h = read("task a 1 main{log 1;}task b 1{log 1;}");
@@ -921,6 +981,60 @@ public final class PromisesTest extends Check {
     private static void counts(House h, int... due) {
         for (int what = 0; what <= 9; what++) {
             due(due[what], h.count(what));
+        }
+    }
+
+    @Holds("Promise 25: 0 TIME, 1 GRAINS,")
+    private static void timeAndGrains() {
+        House h = begun("task a 1 main{log 1;after 50 start b;}task b 1{log 1;}");
+        int[] time = {0, 1, 2, 51, 52, 52};
+        int[] grains = {0, 1, 2, 3, 4, 4};
+        for (int i = 0; i < time.length; i++) {
+            due(time[i], h.count(0));
+            due(grains[i], h.count(1));
+            h.run(1);
+        }
+    }
+
+    @Holds("Promise 25: 2 S done (also those that induced, and began to wait),")
+    private static void statementsDone() {
+        House h = begun("sema s 0;task a 1 main{if 1{on any{}induce 11;}ask s;log 1;}task b 2 main{hold b;give s;}task c 3 main{after 9 go b;}");
+        int[] due = {0, 1, 2, 3, 4, 5, 5, 6, 7, 7};
+        for (int i = 0; i < due.length; i++) {
+            due(due[i], h.count(2));
+            h.run(1);
+        }
+        h = begun("task a 1 main{end b;log 1;}task b 2 main{log 2;}", 2);
+        h.run(1);
+        due(1, h.count(2));
+    }
+
+    @Holds("Promise 25: 3 numbers LOGGED (all), 4 SIGNALS induced (all), 5 SIGNALS that met a reaction,")
+    private static void loggedAndInduced() {
+        House h = begun("var v;task a 1 main{while v<210{on 11{}log v;v=v+1;induce 11;}}task b 2 main{log 1/0;}task c 3 main{start c;induce 12;}");
+        h.run(400);
+        due(100, h.count(3));
+        due(100, h.count(4));
+        due(100, h.count(5));
+        h.run(441);
+        due(210, h.count(3));
+        due(210, h.count(4));
+        due(210, h.count(5));
+        h.run(5);
+        due(210, h.count(3));
+        due(213, h.count(4));
+        due(210, h.count(5));
+    }
+
+    @Holds("Promise 25: 6 schedules, 7 READY tasks,")
+    private static void schedulesAndReadyTasks() {
+        House h = begun("sema s 0;irpt i;task a 2 main{at 50 start b;when i go b;at 60 start b;all 70 until 80 go a;start b;hold b;prevent b;end b;log 1;}task b 5{log 1;}task c 1 main{ask s;}task d 9 main{log 1;}");
+        int[] schedules = {0, 0, 1, 2, 2, 3, 3, 3, 1, 1, 0};
+        int[] ready = {3, 2, 2, 2, 2, 2, 3, 2, 2, 2, 1};
+        for (int i = 0; i < schedules.length; i++) {
+            due(schedules[i], h.count(6));
+            due(ready[i], h.count(7));
+            h.run(1);
         }
     }
 

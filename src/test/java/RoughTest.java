@@ -95,8 +95,17 @@ public final class RoughTest {
             Check.feed(h, text);
         }
         Check.due("module() of " + text, fresh.module(), used.module());
+        if (random.nextBoolean()) {
+            used.begin();
+            used.send(0, 5);
+            used.run(1 + random.nextInt(60));
+        }
         Check.due("begin() of " + text, fresh.begin(), used.begin());
         for (int i = random.nextInt(8); i >= 0; i--) {
+            if (random.nextInt(6) == 0) {
+                Check.feed(used, brokenText());
+                Check.due("a fault of module() while " + text + " runs", 1, used.module() < -10 ? 1 : 0);
+            }
             int grains = 1 + random.nextInt(9);
             int v = random.nextInt(9);
             Check.due("run(" + grains + ")", fresh.run(grains), used.run(grains));

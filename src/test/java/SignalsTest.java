@@ -164,18 +164,24 @@ public final class SignalsTest extends Check {
         return text.toString();
     }
 
-    @Holds("Terms: 8 a gate misused, 9 a span or time that can't be;")
-    private static void signals8And9() {
+    @Holds("Terms: 8 a gate misused,")
+    private static void signal8() {
         induces(8, "free b;");
         induces(8, "leave b;");
         induces(8, "reserve b;leave b;");
         induces(8, "enter b;free b;");
         induces(8, "give s;");
         induces(8, "v=0;while v<40{put o v;v=v+1;}put o v;");
+        inducesNothing("reserve b;free b;enter b;leave b;ask s;give s;put o 1;");
+    }
+
+    @Holds("Terms: 9 a span or time that can't be;")
+    private static void signal9() {
         for (String s : new String[] {"at -1 start d;", "at 0 start d;", "after 0 start d;", "after -1 go d;", "all 0 start d;", "all -1 go d;", "all 5 until 4 start d;", "at 1000*1000*1000+1 go d;",
             "after 1000*1000*1000 start d;", "all 1000*1000*1000 start d;"}) {
             induces(9, s);
         }
+        inducesNothing("at time start d;after 1 go d;all 1 until time+1 start d;prevent d;");
     }
 
     @Holds("Terms: 10 .. 19 by induce (which can all of 1 .. 19; else 5).")

@@ -197,12 +197,16 @@ public final class SortsTest extends Check {
         wanted("log size #;", ROW);
     }
 
-    @Holds("Terms: a sema behind ask, give; a bolt behind reserve to leave;")
-    private static void semasAndBoltsAreWanted() {
+    @Holds("Terms: a sema behind ask, give;")
+    private static void semasAreWanted() {
         wanted("ask #;", SEMA);
         wanted("ask u,u,u,#;", SEMA);
         wanted("give #;", SEMA);
         wanted("give u,#;", SEMA);
+    }
+
+    @Holds("Terms: a bolt behind reserve to leave;")
+    private static void boltsAreWanted() {
         wanted("reserve #;", BOLT);
         wanted("free #;", BOLT);
         wanted("enter #;", BOLT);
@@ -217,15 +221,23 @@ public final class SortsTest extends Check {
         }
     }
 
-    @Holds("Terms: an in behind take, an out behind put; an irpt behind pull, enable, disable, when; a proc behind do.")
-    private static void stationsIrptsAndProcsAreWanted() {
+    @Holds("Terms: an in behind take, an out behind put;")
+    private static void stationsAreWanted() {
         wanted("take # v;", IN);
         wanted("put # 1;", OUT);
+    }
+
+    @Holds("Terms: an irpt behind pull, enable, disable, when;")
+    private static void irptsAreWanted() {
         wanted("pull #;", IRPT);
         wanted("enable #;", IRPT);
         wanted("disable #;", IRPT);
         wanted("when # start t;", IRPT);
         wanted("when # go t;", IRPT);
+    }
+
+    @Holds("Terms: a proc behind do.")
+    private static void procsAreWanted() {
         wanted("do #();", PROC);
         wanted("v=do #();", PROC);
     }
@@ -236,11 +248,23 @@ public final class SortsTest extends Check {
         atMost(8, "var #=-1;");
     }
 
-    @Holds("Terms: 4 rows, 4 semas, 4 bolts, 4 irpts,")
-    private static void fourRowsSemasBoltsIrpts() {
+    @Holds("Terms: 4 rows,")
+    private static void fourRows() {
         atMost(4, "row #;");
+    }
+
+    @Holds("Terms: 4 semas,")
+    private static void fourSemas() {
         atMost(4, "sema # 9;");
+    }
+
+    @Holds("Terms: 4 bolts,")
+    private static void fourBolts() {
         atMost(4, "bolt #;");
+    }
+
+    @Holds("Terms: 4 irpts,")
+    private static void fourIrpts() {
         atMost(4, "irpt #;");
     }
 
@@ -256,12 +280,16 @@ public final class SortsTest extends Check {
         fault(3, "in a;out b;out c;out d;in @a;");
     }
 
-    @Holds("Terms: 6 procs, 8 tasks;")
-    private static void sixProcsEightTasks() {
+    @Holds("Terms: 6 procs,")
+    private static void sixProcs() {
         String procs = "proc a(){}proc b(x){}proc c(){}proc d(){}proc e(){}proc f(x,y,z){}";
         fits(procs);
         fault(3, procs + "proc @g(){}");
         fault(3, procs + "proc @a(){}");
+    }
+
+    @Holds("Terms: 8 tasks;")
+    private static void eightTasks() {
         atMost(8, "task # 1{}");
         atMost(8, "task # 9 main{}");
     }

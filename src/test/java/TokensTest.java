@@ -219,17 +219,22 @@ public final class TokensTest extends Check {
         fault(2, "var b;var a = @b;");
     }
 
+    @Holds("Terms: | sema NAME NUMBER ;")
+    private static void declarationOfSema() {
+        declaration("sema a 5 ;");
+        fault(2, "sema a@;");
+        fault(2, "sema a @= 5;");
+        fault(2, "sema a @-5;");
+        fault(2, "sema a 5 @5;");
+    }
+
     @Holds("Terms: row NAME ; | sema NAME NUMBER ; | bolt NAME ; | irpt NAME ; | in NAME ; | out NAME ;")
     private static void declarationsOfOneName() {
         declaration("row a ;");
-        declaration("sema a 5 ;");
         declaration("bolt a ;");
         declaration("irpt a ;");
         declaration("in a ;");
         declaration("out a ;");
-        fault(2, "sema a@;");
-        fault(2, "sema a @= 5;");
-        fault(2, "sema a @-5;");
         fault(2, "row a@,b;");
         fault(2, "bolt a @1;");
     }
