@@ -169,6 +169,9 @@ public final class ActsTest extends Check {
             h = ran("sema s 0;task a 5 main{on 7{log 7;}" + s + "}task b 9 main{prior b 9;}task c 1 main{ask s;}task d 1{log 1;}", 9);
             logs(s, h, 7);
         }
+        h = ran("sema s 0;task m 5 main{hold a;go a;hold b;go b;hold a;go a;log 1;}task a 1 main{ask s;}task b 1 main{ask s;}", 8);
+        due(1, h.waits(2, 0, 0));
+        due(2, h.waits(2, 0, 1));
         h = ran("sema s 0;task a 5 main{hold c;give s;log state c;go c;log state c;}task c 1 main{ask s;log 3;}", 9);
         logs("served while it is held", h, 2, 3, 0);
     }

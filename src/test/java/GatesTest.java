@@ -182,6 +182,26 @@ public final class GatesTest extends Check {
         due(1, h.send(0, 1));
     }
 
+    @Holds("Terms: take: the eldest number in the in comes to the var; without one the task WAITS.")
+    private static void takesInTurnHoweverOftenTheInWasFull() {
+        House h = begun("var v;in m;in n;in o;task a 1 main{while 1{take n v;log v;}}");
+        int next = 0;
+        int taken = 0;
+        for (int round = 0; round < 5; round++) {
+            while (next - taken < 20) {
+                next++;
+                due(next - taken, h.send(1, next));
+            }
+            due(FULL, h.send(1, 99));
+            h.run(3 * 13);
+            taken += 13;
+            due(taken, h.count(3));
+        }
+        for (int i = 0; i < taken; i++) {
+            due(i + 1, h.logged(i));
+        }
+    }
+
     @Holds("Terms: put: behind what is in the out (8: 40 are there).")
     private static void puts() {
         House h = begun("var a;out o;out p;task t 1 main{on 8{log a;}put p 9;put o -5;while 1{a=a+1;put o a;}}");

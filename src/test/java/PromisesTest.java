@@ -222,14 +222,21 @@ public final class PromisesTest extends Check {
             feed(h, text.toString());
             due(tasks, h.module());
         }
-        House h = ran("var a=1;task t 1 main{a=2;log 3;}", 1);
-        feed(h, "var b=4;row r;");
+        House h = ran("var a=1;row q;out o;task t 1 main{a=2;log 3;make q 1;q[0]=5;put o 6;induce 12;}", 6);
+        due(3, h.logged(0));
+        due(12, h.induced(0, 1));
+        feed(h, "var b=4;row r;out p;");
         due(0, h.module());
         due(STATE, h.run(1));
         due(STATE, h.count(0));
         due(STATE, h.task(0, 0));
         due(0, h.value(0));
         due(0, h.logged(0));
+        due(NONE, h.induced(0, 1));
+        due(0, h.item(0, 0));
+        due(0, h.item(0, NONE));
+        due(0, h.sent(0, 0));
+        due(0, h.sent(0, NONE));
         due(0, h.declared(8));
         due(1, h.declared(1));
         due(1, h.feed(' ', 1));
@@ -347,7 +354,11 @@ public final class PromisesTest extends Check {
 
     @Holds("Promise 6: The number of a NAME (its bytes, the first one highest) of a SORT 0 .. 8; NONE.")
     private static void findANumber() {
-        House h = read("var a;var ab;var abcdefgh;row ba;proc p(x){}task t 1{}");
+        House h = read("var a;var ab;var abcdefgh;row ba;proc p(x){}task t 1{}var bbcdefgh;var abcdefg1;row bcdefgh;");
+        due(3, h.find(0, name("bbcdefgh")));
+        due(4, h.find(0, name("abcdefg1")));
+        due(1, h.find(1, name("bcdefgh")));
+        due(NONE, h.find(1, name("abcdefgh")));
         due(0, h.find(0, 'a'));
         due(1, h.find(0, ('a' << 8) + 'b'));
         due(0, h.find(1, ('b' << 8) + 'a'));
