@@ -7,8 +7,8 @@ import java.util.Map;
 import java.util.regex.Matcher;
 import java.util.regex.Pattern;
 
-// Compares what the tests say they hold with ../shared/DOC.md: each sentence that a test quotes stands there, and all of
-// 'Terms' and of promises 1 to 25 is quoted by a test.
+// Compares what the tests say they hold with ../shared/DOC.md: each sentence that a test quotes stands there, and all of it
+// is quoted by a test (but for 'The public face', which FaceTest reads by itself).
 public final class SentenceTest extends Check {
     private static final Path DOCUMENT = Path.of("../shared/DOC.md");
     private static final Pattern QUOTE = Pattern.compile("@Holds\\(\"((?:[^\"\\\\]|\\\\.)*)\"\\)");
@@ -34,6 +34,8 @@ public final class SentenceTest extends Check {
             allQuoted("Promise " + promise, left);
         }
         allQuoted("Terms", left);
+        allQuoted("What it is", left);
+        allQuoted("Not promised", left);
         finish();
     }
 
